@@ -61,6 +61,8 @@ public final class CalendarTest {
         check.due(2, "closed day", x.openMinutes(0, 1440), 0);
         check.due(2, "first minute", x.setDay(0, 0, 1), 0);
         check.due(2, "one open minute", x.openMinutes(0, 1440), 1);
+        check.due(5, "minute 0", x.isOpen(0), 1);
+        check.due(5, "minute 1", x.isOpen(1), 0);
         check.due(2, "recorded", x.historyLength(), 4);
         check.due(2, "no events", x.logSize(), 0);
         check.due(3, "opening", x.openingMinute(5), 1439);

@@ -12,6 +12,7 @@ public final class ForecastsTest {
         replayLeavesErrorsOut();
         replayOfTheCalendar();
         replayOfOtherLevels();
+        replayOfPriorities();
         leastAgents();
         historyLength();
         check.finish();
@@ -202,6 +203,26 @@ public final class ForecastsTest {
         y.pass(50);
         check.due(45, "one agent from the beginning", y.breachesWith(0, 1), 0);
         check.due(45, "setAgents of level 0 counts for level 1", y.breachesWith(1, 1), 1);
+    }
+
+    private static void replayOfPriorities() {
+        HelpDesk x = new HelpDesk();
+        x.addKind(5, 500, 20, 0, 0, true);
+        x.addKind(500, 500, 20, 0, 0, true);
+        x.setDay(0, 0, 1440);
+        x.report(1, 1, 1, 1);
+        x.report(0, 1, 1, 3);
+        x.pass(100);
+        check.due(45, "the urgent one first", x.breachesWith(0, 1), 0);
+        HelpDesk y = new HelpDesk();
+        y.addKind(5, 500, 20, 0, 0, true);
+        y.addKind(500, 500, 20, 0, 0, true);
+        y.setDay(0, 0, 1440);
+        y.report(1, 1, 1, 1);
+        y.report(0, 1, 1, 1);
+        y.setPriority(0, 0);
+        y.pass(100);
+        check.due(45, "the other one set back", y.breachesWith(0, 1), 0);
     }
 
     private static void leastAgents() {

@@ -93,6 +93,14 @@ public final class KindsAndAgentsTest {
         check.due(9, "of another level", x.stateOf(1), 1);
         x.setAgents(1, 0);
         check.due(9, "the last ticket", x.stateOf(1), 0);
+        for (int t = 2; t < 60; t++) {
+            x.report(0, 1, 1, t == 59 ? 3 : 0);
+        }
+        x.setAgents(0, 1);
+        x.pass(1);
+        check.due(9, "the sixtieth ticket is in work", x.stateOf(59), 1);
+        x.setAgents(0, 0);
+        check.due(9, "the sixtieth ticket", x.stateOf(59), 0);
     }
 
     private static void fullHistory() {

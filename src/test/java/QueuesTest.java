@@ -186,5 +186,29 @@ public final class QueuesTest {
         check.due(42, "of 1, 2, 3 the first", y.resolvePercentile(33), 1);
         check.due(42, "of 1, 2, 3 the second", y.resolvePercentile(34), 2);
         check.due(42, "of 1, 2, 3 the third", y.resolvePercentile(67), 3);
+        HelpDesk z = new HelpDesk();
+        z.addKind(10, 60, 20, 0, 0, true);
+        for (int t = 0; t < 3; t++) {
+            z.report(0, 1, 1, 1);
+            z.pass(1);
+        }
+        z.pass(1);
+        z.solve(2);
+        z.solve(1);
+        z.solve(0);
+        check.due(42, "of 4, 3, 2 the first", z.resolvePercentile(1), 2);
+        check.due(42, "of 4, 3, 2 the second", z.resolvePercentile(50), 3);
+        check.due(42, "of 4, 3, 2 the third", z.resolvePercentile(90), 4);
+        HelpDesk w = new HelpDesk();
+        w.addKind(10, 60, 20, 0, 0, true);
+        for (int t = 0; t < 3; t++) {
+            w.report(0, 1, 1, 1);
+        }
+        for (int t = 0; t < 3; t++) {
+            w.pass(1);
+            w.solve(t);
+        }
+        check.due(42, "in the order of the tickets", w.resolvePercentile(66), 2);
+        check.due(42, "in the order of the tickets", w.resolvePercentile(100), 3);
     }
 }

@@ -9,6 +9,8 @@ public final class SavedStatesTest {
         whatDoesNotBelong();
         savedStatesStay();
         twoOtherStates();
+        replaysOfTwoStates();
+        priorityInTheHistory();
         nothingShinesThrough();
         fullAgain();
         check.finish();
@@ -216,6 +218,69 @@ public final class SavedStatesTest {
         check.due(60, "its kinds", allOf(fresh), allOf(y));
     }
 
+    /** The history and the kinds of a state are told apart from those of the other by their replays. */
+    private static void replaysOfTwoStates() {
+        HelpDesk x = new HelpDesk();
+        x.save(0);
+        x.addKind(50, 5, 20, 0, 0, false);
+        x.addKind(5, 50, 20, 0, 0, false);
+        x.pass(10);
+        x.setDay(0, 0, 1400);
+        x.report(0, 1, 1, 1);
+        x.pass(10);
+        x.report(1, 1, 1, 3);
+        x.pass(100);
+        long[] one = replays(x);
+        x.save(1);
+        x.restore(0);
+        x.addKind(10080, 10080, 20, 0, 0, false);
+        x.addKind(10080, 10080, 20, 0, 0, false);
+        x.pass(1);
+        x.setAgents(3, 1);
+        x.report(0, 1, 1, 3);
+        x.setDay(0, 0, 1);
+        x.pass(400);
+        long[] other = replays(x);
+        x.save(0);
+        for (int slot = 1; slot >= 0; slot--) {
+            x.restore(slot);
+            long[] back = replays(x);
+            for (int i = 0; i < back.length; i++) {
+                check.due(60, "slot " + slot + ", replay " + i, back[i], slot == 1 ? one[i] : other[i]);
+            }
+        }
+        check.due(45, "the first state's breaches", one[1], 2);
+        check.due(45, "without agents", one[0], 4);
+        check.due(45, "the other state's", other[0], 0);
+        x.restore(1);
+        check.due(60, "what happened", x.responseBreaches(1) * 100 + x.resolveBreaches(0), 101);
+        check.due(60, "what is late by the kinds", x.responseBreaches(0) + x.resolveBreaches(1), 0);
+    }
+
+    /** The priorities of the reports in the history come back, too. */
+    private static void priorityInTheHistory() {
+        HelpDesk x = new HelpDesk();
+        x.addKind(5, 500, 20, 0, 0, true);
+        x.addKind(500, 500, 20, 0, 0, true);
+        x.setDay(0, 0, 1440);
+        x.save(0);
+        x.report(1, 1, 1, 0);
+        x.report(0, 1, 1, 3);
+        x.pass(100);
+        x.save(1);
+        x.restore(0);
+        x.report(1, 1, 1, 3);
+        x.report(0, 1, 1, 0);
+        x.pass(100);
+        check.due(45, "the urgent one is not late", x.breachesWith(0, 1), 1);
+        x.restore(1);
+        check.due(60, "the urgent one first", x.breachesWith(0, 1), 0);
+    }
+
+    private static long[] replays(HelpDesk x) {
+        return new long[] {x.breachesWith(0, 0), x.breachesWith(0, 1), x.breachesWith(0, 2), x.leastAgents(0)};
+    }
+
     /** Tickets that came after the saved state are not counted once it is back. */
     private static void nothingShinesThrough() {
         HelpDesk x = new HelpDesk();
@@ -225,11 +290,13 @@ public final class SavedStatesTest {
         for (int t = 1; t < 9; t++) {
             x.report(0, 1, 1, 1);
         }
+        x.solve(1);
         x.pass(7);
         x.join(8, 7);
-        x.join(1, 0);
+        x.join(3, 0);
         x.solve(0);
         x.solve(2);
+        x.report(0, 1, 1, 1);
         x.restore(0);
         check.due(60, "no breaches", x.responseBreaches(0) + x.resolveBreaches(0), 0);
         check.due(60, "none solved", x.resolvePercentile(100), HelpDesk.NONE);

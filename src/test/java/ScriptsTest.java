@@ -11,6 +11,7 @@ public final class ScriptsTest {
         layout();
         failures();
         syntaxErrors();
+        endsOfTexts();
         greatNumbers();
         fortyStatements();
         nothingIsExecutedOnAnError();
@@ -207,6 +208,33 @@ public final class ScriptsTest {
         wrong(x, "pass 1;\r\n", 1, 7);
         wrong(x, "setagents 1 1;", 1, 0);
         check.due(21, "nothing was executed", x.now(), 0);
+    }
+
+    /** What was cut off, or lies behind the whole buffer, is not read. */
+    private static void endsOfTexts() {
+        for (String text : new String[] {"pass 123", "pass    ", "passpass"}) {
+            HelpDesk x = new HelpDesk();
+            append(x, text);
+            x.truncateText(6);
+            check.due(55, "cut: " + text, x.runScript(), HelpDesk.SYNTAX_ERROR);
+            check.due(57, "cut: " + text, x.errorPosition(), text.equals("passpass") ? 0 : 6);
+        }
+        String pad = " ".repeat(392);
+        for (String end : new String[] {"pass   7", "pass    ", "passpass", "pass 11;", "pass  1\n", "pass  1!"}) {
+            HelpDesk x = new HelpDesk();
+            int answer = run(x, pad + end);
+            boolean sound = end.equals("pass 11;");
+            check.due(55, "400 bytes, " + end, answer, sound ? 1 : HelpDesk.SYNTAX_ERROR);
+            check.due(57, "400 bytes, " + end, x.errorPosition(), sound ? HelpDesk.NONE
+                    : end.equals("passpass") ? 392 : end.endsWith("!") ? 399 : 400);
+        }
+        HelpDesk x = new HelpDesk();
+        check.due(55, "400 digits", run(x, "1".repeat(400)), HelpDesk.SYNTAX_ERROR);
+        check.due(56, "400 digits", x.errorCode(), 1);
+        check.due(55, "395 digits", run(x, "pass " + "1".repeat(395)), HelpDesk.SYNTAX_ERROR);
+        check.due(56, "395 digits", x.errorCode(), 2);
+        check.due(55, "394 digits", run(x, "pass " + "0".repeat(393) + "1;"), 1);
+        check.due(21, "394 digits", x.now(), 1);
     }
 
     private static void greatNumbers() {

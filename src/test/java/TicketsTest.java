@@ -116,5 +116,18 @@ public final class TicketsTest {
         check.due(15, "solve", x.solve(0), 60);
         check.due(16, "reopen", x.reopen(0), 60);
         check.due(39, "all are the customer's", x.customerTickets(1), (1L << 60) - 1);
+        check.due(43, "the last one", x.forecast(59), 560);
+        check.due(44, "all are late", x.breachesAhead(), 120);
+        check.due(38, "the first", x.suggestRoot(59), 0);
+        x.pass(600);
+        check.due(40, "all were late", x.responseBreaches(0), 60);
+        check.due(41, "all were late", x.resolveBreaches(0), 60);
+        check.due(42, "all clocks", x.resolvePercentile(100), 560);
+        check.due(42, "all clocks", x.resolvePercentile(1), 560);
+        check.due(45, "replay", x.breachesWith(0, 9), 120);
+        check.due(35, "queue", x.queueLength(0), 0);
+        check.due(36, "next", x.nextTicket(0), HelpDesk.NONE);
+        check.due(37, "busy", x.busyAgents(0), 0);
+        check.due(9, "agents", x.setAgents(0, 0), 1);
     }
 }

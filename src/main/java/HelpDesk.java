@@ -1167,11 +1167,12 @@ public final class HelpDesk {
                 if (!counts(t, open)) {
                     continue;
                 }
+                int kind = tickets.kind[t];
                 if (tickets.responseRuns(t)) {
-                    growResponse(t, span);
+                    grow(tickets.responseClock, t, span, kinds.response[kind], EVENT_RESPONSE_BREACH);
                 }
                 if (tickets.resolveRuns(t)) {
-                    growResolve(t, span);
+                    grow(tickets.resolveClock, t, span, kinds.resolve[kind], EVENT_RESOLVE_BREACH);
                 }
                 if (tickets.state[t] == QUEUED) {
                     tickets.levelClock[t] += span;
@@ -1179,21 +1180,11 @@ public final class HelpDesk {
             }
         }
 
-        private void growResponse(int ticket, int span) {
-            int target = kinds.response[tickets.kind[ticket]];
-            int before = tickets.responseClock[ticket];
-            tickets.responseClock[ticket] = before + span;
+        private void grow(int[] clock, int ticket, int span, int target, int breach) {
+            int before = clock[ticket];
+            clock[ticket] = before + span;
             if (before <= target && before + span > target) {
-                log.write(time + span, EVENT_RESPONSE_BREACH, ticket, target);
-            }
-        }
-
-        private void growResolve(int ticket, int span) {
-            int target = kinds.resolve[tickets.kind[ticket]];
-            int before = tickets.resolveClock[ticket];
-            tickets.resolveClock[ticket] = before + span;
-            if (before <= target && before + span > target) {
-                log.write(time + span, EVENT_RESOLVE_BREACH, ticket, target);
+                log.write(time + span, breach, ticket, target);
             }
         }
 
@@ -1226,24 +1217,20 @@ public final class HelpDesk {
 
         // ---- breaches
 
-        // Clocks never go back, so a ticket had a breach just if its clock is above the target now.
-
         int lateResponses(int kind) {
-            int sum = 0;
-            for (int t = 0; t < tickets.count; t++) {
-                if ((kind == NONE || tickets.kind[t] == kind)
-                        && tickets.responseClock[t] > kinds.response[tickets.kind[t]]) {
-                    sum++;
-                }
-            }
-            return sum;
+            return countLate(kind, tickets.responseClock, kinds.response);
         }
 
         int lateSolutions(int kind) {
+            return countLate(kind, tickets.resolveClock, kinds.resolve);
+        }
+
+        /** Clocks never go back, so a ticket had a breach just if its clock is above the target now. */
+        private int countLate(int kind, int[] clock, int[] target) {
             int sum = 0;
             for (int t = 0; t < tickets.count; t++) {
-                if ((kind == NONE || tickets.kind[t] == kind)
-                        && tickets.resolveClock[t] > kinds.resolve[tickets.kind[t]]) {
+                int own = tickets.kind[t];
+                if ((kind == NONE || own == kind) && clock[t] > target[own]) {
                     sum++;
                 }
             }

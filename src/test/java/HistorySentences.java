@@ -1,0 +1,261 @@
+/** The sentences on the history, on replays and on the log. */
+final class HistorySentences {
+    private final Sentences s;
+
+    HistorySentences(Sentences sentences) {
+        s = sentences;
+    }
+
+    void test() {
+        s.under("HISTORY");
+        changes();
+        recorded();
+        beginning();
+        repeating();
+        errorsInReplays();
+        otherAgents();
+        log();
+    }
+
+    private void changes() {
+        s.of("These methods are called changes", () -> {
+            HelpDesk x = Desks.calm(2);
+            s.due("setDay and report", x.historyLength(), 3);
+            x.setAgents(1, 1);
+            s.due("setAgents", x.historyLength(), 4);
+            x.pause(0);
+            s.due("pause", x.historyLength(), 5);
+            x.resume(0);
+            s.due("resume", x.historyLength(), 6);
+            x.climb(0);
+            s.due("climb", x.historyLength(), 7);
+            x.solve(0);
+            s.due("solve", x.historyLength(), 8);
+            x.reopen(0);
+            s.due("reopen", x.historyLength(), 9);
+            x.join(0, 1);
+            s.due("join", x.historyLength(), 10);
+            x.part(0);
+            s.due("part", x.historyLength(), 11);
+            x.setPriority(0, 1);
+            s.due("setPriority", x.historyLength(), 12);
+            Desks.run(x, "priority 0 1;part 0;");
+            s.due("by a script, and none for an error", x.historyLength(), 13);
+        });
+    }
+
+    private void recorded() {
+        s.of("Every change without an error is recorded in the history with its time", () -> {
+            HelpDesk x = Desks.open(5, 10080, 480, 0, 0);
+            x.pass(100);
+            x.report(0, 1, 1, 1);
+            x.pass(5);
+            s.due("reported five minutes ago", x.breachesWith(0, 0), 0);
+            x.pass(1);
+            s.due("six minutes ago", x.breachesWith(0, 0), 1);
+            int changes = x.historyLength();
+            x.report(1, 1, 1, 1);
+            x.pause(1);
+            x.setAgents(4, 1);
+            x.resume(0);
+            s.due("errors are not recorded", x.historyLength(), changes);
+        });
+        s.of("The history holds at most 200 changes", () -> {
+            HelpDesk x = Desks.calm(1);
+            for (int i = x.historyLength(); i < 199; i++) {
+                x.setPriority(0, i % 4);
+            }
+            s.due("the two hundredth", x.pause(0), 0);
+            s.due("full", x.historyLength(), 200);
+            s.unchanged(x, "one more", d -> d.resume(0), HelpDesk.FULL);
+            s.unchanged(x, "one that would change nothing", d -> d.setDay(6, 0, 0), HelpDesk.FULL);
+            s.due("time passes all the same", x.pass(10080), 0);
+        });
+        s.of("(Kinds and the passing of time are not recorded.)", () -> {
+            HelpDesk x = new HelpDesk();
+            x.addKind(1, 1, 1, 0, 0, true);
+            x.pass(10080);
+            s.due("history", x.historyLength(), 0);
+            HelpDesk y = Desks.calm(1);
+            Desks.fillHistory(y);
+            s.due("a kind, the history being full", y.addKind(1, 1, 1, 0, 0, true), 1);
+            s.due("minutes, the history being full", y.pass(480), 1);
+        });
+    }
+
+    private void beginning() {
+        s.of("A replay begins at time 0 with the first calendar", () -> {
+            HelpDesk x = new HelpDesk();
+            x.addKind(5, 10080, 480, 0, 0, false);
+            x.report(0, 1, 1, 1);
+            x.setAgents(1, 9);
+            x.pass(545);
+            s.due("five open minutes", x.breachesWith(0, 0), 0);
+            x.pass(1);
+            s.due("six open minutes of the first calendar", x.breachesWith(0, 0), 1);
+            x.setDay(0, 0, 0);
+            s.due("a calendar of later", x.breachesWith(0, 0), 1);
+            s.due("no tickets of before", x.breachesWith(0, 1), 0);
+            HelpDesk y = Desks.open(5, 10080, 480, 0, 0);
+            Desks.report(y, 2);
+            y.setPriority(0, 3);
+            y.climb(0);
+            y.pass(6);
+            y.setAgents(0, 0);
+            s.due("one agent at level 0", y.breachesWith(1, 0), 1);
+            s.due("one agent at level 1", y.breachesWith(0, 0), 1);
+        });
+    }
+
+    private void repeating() {
+        s.of("It makes the changes of the history at their times, in their order", () -> {
+            HelpDesk x = Desks.open(5, 10080, 480, 0, 0);
+            Desks.report(x, 2);
+            x.join(0, 1);
+            x.part(0);
+            x.join(1, 0);
+            x.pause(0);
+            x.pass(5);
+            s.due("a minute too early", x.breachesWith(0, 0), 0);
+            x.pass(1);
+            s.due("at the present time", x.breachesWith(0, 0), 2);
+            x.solve(0);
+            x.pass(9);
+            s.due("solved at the time of the breach", x.breachesWith(0, 0), 2);
+            HelpDesk y = Desks.open(5, 10080, 480, 0, 0);
+            Desks.report(y, 1);
+            y.pass(5);
+            y.solve(0);
+            y.pass(10075);
+            s.due("solved a minute earlier", y.breachesWith(0, 0), 0);
+            y.report(0, 1, 1, 1);
+            s.due("reported at the last time", y.breachesWith(0, 0), 0);
+        });
+    }
+
+    private void errorsInReplays() {
+        s.of("A change that would be an error in the replay is left out", () -> {
+            HelpDesk x = Desks.open(30, 30, 10, 0, 0);
+            Desks.report(x, 1);
+            x.pass(20);
+            x.reopen(0);
+            x.pass(11);
+            s.due("as it was: solved twice", x.breachesWith(0, 1), 0);
+            s.due("never solved, so not reopened", x.breachesWith(0, 0), 2);
+            HelpDesk y = Desks.open(30, 30, 10, 0, 0);
+            y.setAgents(0, 0);
+            Desks.report(y, 2);
+            y.pass(15);
+            y.pause(0);
+            y.join(1, 0);
+            y.climb(0);
+            y.pass(100);
+            s.due("as it was: ticket 0 paused with its twin", y.breachesWith(0, 0), 2);
+            s.due("both solved, neither paused nor joined", y.breachesWith(0, 2), 0);
+            s.due("one solved, the other not joined to it", y.breachesWith(0, 1), 0);
+        });
+        s.of("(A report is never an error in a replay", () -> {
+            HelpDesk x = Desks.open(5, 10080, 480, 0, 0);
+            Desks.report(x, 60);
+            x.setPriority(59, 3);
+            x.pass(6);
+            s.due("sixty tickets", x.breachesWith(0, 0), 60);
+            s.due("nine of them answered", x.breachesWith(0, 9), 51);
+            x.pause(59);
+            x.solve(59);
+            x.pass(6);
+            s.due("the same numbers", x.breachesWith(0, 1), 59);
+        });
+        s.of("A replay does not change the desk", () -> {
+            HelpDesk x = Desks.ofEveryState();
+            s.unchanged(x, "breachesWith", d -> d.breachesWith(0, 9), 0);
+            s.unchanged(x, "leastAgents", d -> d.leastAgents(3), 0);
+        });
+    }
+
+    private void otherAgents() {
+        s.of("In a replay for a level with a number of agents", () -> {
+            HelpDesk x = Desks.open(5, 10080, 480, 0, 0);
+            Desks.report(x, 4);
+            x.setAgents(0, 2);
+            x.setAgents(1, 2);
+            x.climb(2);
+            x.climb(3);
+            x.pass(6);
+            x.setAgents(0, 9);
+            s.due("as it was", x.breachesWith(3, 0), 0);
+            s.due("one from the beginning", x.breachesWith(0, 1), 1);
+            s.due("none from the beginning", x.breachesWith(0, 0), 2);
+            s.due("nine from the beginning", x.breachesWith(0, 9), 0);
+            s.due("level 1, the changes of level 0 count", x.breachesWith(1, 0), 2);
+            s.due("level 1, its own do not", x.breachesWith(1, 1), 1);
+        });
+    }
+
+    private void log() {
+        s.under("LOG");
+        s.of("The log is a list of at most 600 events", () -> {
+            HelpDesk x = Desks.withEvents(599);
+            s.due("599 events", x.logSize(), 599);
+            s.due("a twin parts", x.part(59), 0);
+            s.due("the six hundredth", x.logType(599) * 1000 + x.logTicket(599), 7059);
+            s.due("another parts", x.part(58), 0);
+            s.due("a further event is not written", x.logSize(), 600);
+            s.due("the last one stays", x.logTicket(599), 59);
+            s.due("none behind it", x.logType(600), HelpDesk.OUT_OF_RANGE);
+            s.due("but it happens", x.stateOf(58), Desks.QUEUED);
+            s.due("as all others do", x.solve(0), 58);
+            x.pass(480);
+            s.due("and time passes", x.solvedAt(58), 480);
+            HelpDesk y = Desks.withEvents(598);
+            s.due("sixty solved, room for two", y.solve(0), 60);
+            s.due("full", y.logSize(), 600);
+            s.due("the root's event", y.logTicket(598), 0);
+            s.due("the first twin's event", y.logTicket(599), 1);
+            s.due("the last twin", y.solvedAt(59), 0);
+        });
+        s.nothingIn("An event has a time, a type");
+        s.of("The types, with the detail in parentheses", this::types);
+        s.of("Events are written in the order in which they happen", () -> {
+            HelpDesk x = Desks.calm(4);
+            x.join(0, 3);
+            x.join(1, 3);
+            x.climb(2);
+            x.solve(3);
+            int[] types = {0, 0, 0, 0, 6, 6, 4, 5, 5, 5};
+            int[] tickets = {0, 1, 2, 3, 0, 1, 2, 3, 0, 1};
+            for (int i = 0; i < types.length; i++) {
+                s.due("type " + i, x.logType(i), types[i]);
+                s.due("ticket " + i, x.logTicket(i), tickets[i]);
+            }
+        });
+    }
+
+    private void types() {
+        HelpDesk x = new HelpDesk();
+        x.addKind(100, 100, 480, 0, 0, true);
+        x.addKind(1, 2, 480, 0, 0, true);
+        x.setDay(0, 0, 1440);
+        x.report(1, 1, 1, 1);
+        x.report(0, 1, 1, 1);
+        x.climb(1);
+        x.climb(1);
+        x.setAgents(0, 0);
+        x.pass(3);
+        x.pause(1);
+        x.resume(1);
+        x.join(0, 1);
+        x.part(0);
+        x.solve(0);
+        x.reopen(0);
+        int[][] due = {{0, 0, 0, 1}, {0, 0, 1, 0}, {0, 4, 1, 1}, {0, 4, 1, 2}, {0, 1, 1, 2}, {2, 8, 0, 1},
+            {3, 9, 0, 2}, {3, 2, 1, 0}, {3, 3, 1, 0}, {3, 6, 0, 1}, {3, 7, 0, 1}, {3, 5, 0, 0}, {3, 10, 0, 0}};
+        s.due("events", x.logSize(), due.length);
+        for (int i = 0; i < due.length; i++) {
+            s.due("time of " + i, x.logTime(i), due[i][0]);
+            s.due("type of " + i, x.logType(i), due[i][1]);
+            s.due("ticket of " + i, x.logTicket(i), due[i][2]);
+            s.due("detail of " + i, x.logDetail(i), due[i][3]);
+        }
+    }
+}

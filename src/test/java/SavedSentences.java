@@ -1,0 +1,159 @@
+/** The promises 59 and 60: saved states. */
+final class SavedSentences {
+    private final Sentences s;
+
+    SavedSentences(Sentences sentences) {
+        s = sentences;
+    }
+
+    void test() {
+        save();
+        restore();
+    }
+
+    private void save() {
+        s.under("Promise 59: save");
+        s.of("Saves the time, the calendar, the kinds, the agents, the tickets, the history and the log", () -> {
+            HelpDesk x = Desks.ofEveryState();
+            String before = Desks.picture(x);
+            s.unchanged(x, "save", d -> d.save(0) ? 1 : 0, 1);
+            changeAll(x);
+            x.restore(0);
+            s.due("all is back", Desks.picture(x).equals(before), true);
+            s.due("the kinds, too", x.report(1, 1, 1, 1), HelpDesk.NO_SUCH_KIND);
+            HelpDesk full = Desks.withEvents(600);
+            Desks.fillHistory(full);
+            String all = Desks.picture(full);
+            full.save(1);
+            full.pass(10080);
+            full.restore(1);
+            s.due("a full desk", Desks.picture(full).equals(all), true);
+            s.due("still full", full.pause(0), HelpDesk.FULL);
+        });
+        s.of("The text buffer, the error code, the error position and the script failure do not", () -> {
+            HelpDesk x = new HelpDesk();
+            x.appendText(0x70617373);
+            x.save(0);
+            Desks.append(x, " 100000;");
+            x.restore(0);
+            s.due("the text", Desks.textLength(x), 12);
+            x.runScript();
+            x.restore(0);
+            s.due("the text, empty", Desks.textLength(x), 0);
+            s.due("the error code", x.errorCode(), 2);
+            s.due("the error position", x.errorPosition(), 5);
+            x.save(1);
+            Desks.run(x, "pause 0;");
+            x.restore(1);
+            s.due("the error code", x.errorCode(), 0);
+            s.due("the error position", x.errorPosition(), HelpDesk.NONE);
+            s.due("the failure", x.scriptFailure(), HelpDesk.NO_SUCH_TICKET);
+        });
+        s.of("- `slot`: 0 or 1; a state that is already saved there is replaced", () -> {
+            HelpDesk x = new HelpDesk();
+            for (int slot = 0; slot < 2; slot++) {
+                s.due("slot " + slot, x.save(slot), true);
+                x.pass(5);
+                s.due("slot " + slot + " again", x.save(slot), true);
+                x.pass(5);
+            }
+            x.restore(0);
+            s.due("slot 0, replaced", x.now(), 5);
+            x.restore(1);
+            s.due("slot 1, replaced", x.now(), 15);
+            HelpDesk y = Desks.calm(0);
+            String small = Desks.picture(y);
+            y.save(1);
+            Desks.report(y, 60);
+            changeAll(y);
+            y.save(0);
+            y.restore(1);
+            y.save(0);
+            changeAll(y);
+            y.restore(0);
+            s.due("a great state, replaced by a small one", Desks.picture(y).equals(small), true);
+        });
+        s.of("Returns true", () -> s.due("a new desk", new HelpDesk().save(0), true));
+        s.of("false (and nothing changes) if slot is out of range", () -> {
+            HelpDesk x = Desks.ofEveryState();
+            x.save(0);
+            x.save(1);
+            x.pass(1);
+            for (int slot : Desks.beside(0, 1)) {
+                s.unchanged(x, "save " + slot, d -> d.save(slot) ? 1 : 0, 0);
+            }
+            x.restore(0);
+            s.due("slot 0 stays", x.now(), 7);
+            x.pass(1);
+            x.restore(1);
+            s.due("slot 1 stays", x.now(), 7);
+        });
+    }
+
+    private static void changeAll(HelpDesk x) {
+        x.addKind(0, 0, 1, 0, 1, false);
+        x.setDay(0, 1, 2);
+        x.setDay(6, 1, 2);
+        x.setAgents(0, 7);
+        x.setAgents(3, 1);
+        x.part(4);
+        x.resume(2);
+        x.reopen(3);
+        x.climb(2);
+        x.setPriority(0, 3);
+        x.report(1, 40, 500, 3);
+        x.pass(3000);
+        x.solve(1);
+    }
+
+    private void restore() {
+        s.under("Promise 60: restore");
+        s.of("Brings back a saved state, which stays saved", () -> {
+            HelpDesk x = Desks.ofEveryState();
+            String before = Desks.picture(x);
+            x.save(0);
+            for (int i = 0; i < 3; i++) {
+                changeAll(x);
+                s.due("another state", Desks.picture(x).equals(before), false);
+                s.due("back", x.restore(0), true);
+                s.due("as it was", Desks.picture(x).equals(before), true);
+            }
+            HelpDesk y = Desks.ofEveryState();
+            y.save(0);
+            y.restore(0);
+            x.pass(2000);
+            y.pass(2000);
+            s.due("it goes on alike", Desks.picture(x).equals(Desks.picture(y)), true);
+        });
+        s.of("- `slot`: 0 or 1", () -> {
+            HelpDesk x = new HelpDesk();
+            x.save(0);
+            x.pass(1);
+            x.save(1);
+            s.due("0", x.restore(0), true);
+            s.due("its time", x.now(), 0);
+            s.due("1", x.restore(1), true);
+            s.due("its time", x.now(), 1);
+        });
+        s.of("Returns true", () -> {
+            HelpDesk x = new HelpDesk();
+            x.save(1);
+            s.due("saved just now", x.restore(1), true);
+        });
+        s.of("false (and nothing changes) if slot is out of range or nothing is saved there", () -> {
+            HelpDesk x = Desks.ofEveryState();
+            s.unchanged(x, "slot 0, nothing saved", d -> d.restore(0) ? 1 : 0, 0);
+            x.save(1);
+            x.pass(1);
+            s.unchanged(x, "slot 0, slot 1 saved", d -> d.restore(0) ? 1 : 0, 0);
+            x.save(0);
+            x.pass(1);
+            for (int slot : Desks.beside(0, 1)) {
+                s.unchanged(x, "restore " + slot, d -> d.restore(slot) ? 1 : 0, 0);
+            }
+            HelpDesk y = Desks.ofEveryState();
+            y.save(0);
+            s.unchanged(y, "slot 1, slot 0 saved", d -> d.restore(1) ? 1 : 0, 0);
+        });
+    }
+}

@@ -430,6 +430,10 @@ final class ChangeSentences {
             s.due("of the new root", x.rootOf(58), 59);
             s.due("one event", x.logSize(), events + 1);
             lastEvent(x, 6, 0, 59);
+            HelpDesk y = Desks.calm(3);
+            y.join(0, 2);
+            y.join(2, 1);
+            s.due("ticket 0 as the own twin", y.rootOf(0), 1);
         });
         Change toTheOther = (x, t) -> x.join(t, 59 - t);
         ticketNumbers((x, t) -> 0, toTheOther, "- `ticket`: the number of a ticket that is QUEUED, IN WORK or PAUSED");

@@ -104,6 +104,15 @@ final class HistorySentences {
             y.setAgents(0, 0);
             s.due("one agent at level 0", y.breachesWith(1, 0), 1);
             s.due("one agent at level 1", y.breachesWith(0, 0), 1);
+            HelpDesk z = Desks.open(50, 5, 10, 0, 100);
+            z.report(0, 1, 1, 1);
+            z.pass(99);
+            for (int i = 0; i < 3; i++) {
+                s.due("nothing is left of another replay", z.breachesWith(0, 0), 2);
+                s.due("nothing is left of the same replay", z.breachesWith(0, 0), 2);
+                s.due("nothing is left of another replay", z.breachesWith(0, 1), 1);
+                s.due("nothing is left of a forecast", z.breachesAhead() + z.breachesWith(0, 1), 1);
+            }
         });
     }
 
@@ -135,24 +144,13 @@ final class HistorySentences {
 
     private void errorsInReplays() {
         s.of("A change that would be an error in the replay is left out", () -> {
-            HelpDesk x = Desks.open(30, 30, 10, 0, 0);
-            Desks.report(x, 1);
-            x.pass(20);
-            x.reopen(0);
-            x.pass(11);
-            s.due("as it was: solved twice", x.breachesWith(0, 1), 0);
-            s.due("never solved, so not reopened", x.breachesWith(0, 0), 2);
-            HelpDesk y = Desks.open(30, 30, 10, 0, 0);
-            y.setAgents(0, 0);
-            Desks.report(y, 2);
-            y.pass(15);
-            y.pause(0);
-            y.join(1, 0);
-            y.climb(0);
-            y.pass(100);
-            s.due("as it was: ticket 0 paused with its twin", y.breachesWith(0, 0), 2);
-            s.due("both solved, neither paused nor joined", y.breachesWith(0, 2), 0);
-            s.due("one solved, the other not joined to it", y.breachesWith(0, 1), 0);
+            leftOutPauseAndResume();
+            leftOutClimb();
+            leftOutSolve();
+            leftOutReopen();
+            leftOutJoin();
+            leftOutPart();
+            leftOutSetPriority();
         });
         s.of("(A report is never an error in a replay", () -> {
             HelpDesk x = Desks.open(5, 10080, 480, 0, 0);
@@ -171,6 +169,104 @@ final class HistorySentences {
             s.unchanged(x, "breachesWith", d -> d.breachesWith(0, 9), 0);
             s.unchanged(x, "leastAgents", d -> d.leastAgents(3), 0);
         });
+    }
+
+    /**
+     * Nobody works, so that all tickets wait; in a replay with an agent at level 0 ticket 0 is SOLVED at time 10,
+     * and what is then done to it is an error there. What is due tells that case from the one that it was done.
+     */
+    private static HelpDesk unmanned(int response, int resolve, int climb, int tickets) {
+        HelpDesk x = Desks.open(response, resolve, 10, 0, climb);
+        x.setAgents(0, 0);
+        x.setAgents(1, 0);
+        Desks.report(x, tickets);
+        return x;
+    }
+
+    private void leftOutPauseAndResume() {
+        for (int resumed = 0; resumed < 2; resumed++) {
+            HelpDesk x = unmanned(100, 100, 0, 2);
+            x.climb(1);
+            x.join(1, 0);
+            x.pass(15);
+            x.part(1);
+            x.pause(1);
+            if (resumed == 1) {
+                x.resume(1);
+            }
+            x.pass(1000);
+            s.due("pause, and resume " + resumed + ", as it was", x.breachesWith(0, 0), 3 + resumed);
+            s.due("pause, and resume " + resumed + ", of a solved one", x.breachesWith(0, 1), 0);
+        }
+    }
+
+    private void leftOutClimb() {
+        HelpDesk x = unmanned(100, 100, 0, 1);
+        x.pass(15);
+        x.climb(0);
+        x.pass(1000);
+        s.due("climb, as it was", x.breachesWith(0, 0), 2);
+        s.due("climb of a solved one", x.breachesWith(0, 1), 0);
+    }
+
+    private void leftOutSolve() {
+        HelpDesk x = unmanned(1000, 15, 0, 2);
+        x.join(1, 0);
+        x.pass(20);
+        x.part(1);
+        x.solve(0);
+        x.reopen(0);
+        x.solve(1);
+        x.pass(1000);
+        s.due("solve, as it was", x.breachesWith(0, 0), 3);
+        s.due("solve of a twin, whose clock runs with its root's", x.breachesWith(0, 1), 2);
+    }
+
+    private void leftOutReopen() {
+        HelpDesk x = Desks.open(120, 10080, 10, 0, 100);
+        x.report(0, 1, 1, 1);
+        x.pass(50);
+        x.reopen(0);
+        x.pass(1000);
+        s.due("reopen of a ticket that is not solved: it climbs at 100 and is taken", x.breachesWith(0, 0), 0);
+    }
+
+    private void leftOutJoin() {
+        HelpDesk x = unmanned(100, 100, 0, 2);
+        x.climb(1);
+        x.pass(15);
+        x.join(1, 0);
+        x.pass(1000);
+        s.due("join, as it was", x.breachesWith(0, 0), 4);
+        s.due("join to a solved one", x.breachesWith(0, 1), 2);
+        HelpDesk y = unmanned(100, 100, 0, 2);
+        y.climb(1);
+        y.pass(15);
+        y.join(0, 1);
+        y.pass(1000);
+        s.due("join of a solved one", y.breachesWith(0, 1), 2);
+    }
+
+    private void leftOutPart() {
+        HelpDesk x = unmanned(100, 100, 0, 2);
+        x.climb(1);
+        x.join(1, 0);
+        x.pass(15);
+        x.part(1);
+        x.pass(1000);
+        s.due("part, as it was", x.breachesWith(0, 0), 4);
+        s.due("part of a solved one", x.breachesWith(0, 1), 0);
+    }
+
+    private void leftOutSetPriority() {
+        HelpDesk x = unmanned(5, 10080, 0, 1);
+        x.pass(15);
+        x.setPriority(0, 3);
+        x.solve(0);
+        x.reopen(0);
+        x.report(0, 1, 1, 2);
+        x.pass(1000);
+        s.due("setPriority of a solved one, which waits when reopened", x.breachesWith(0, 1), 0);
     }
 
     private void otherAgents() {

@@ -239,6 +239,19 @@ final class MinuteSentences {
             y.pass(1);
             event(y, 1, 1, 8, 0);
             event(y, 2, 1, 9, 0);
+            for (int target : new int[] {0, 1, 2, 7, 100}) {
+                HelpDesk w = Desks.open(10080, target, 480, 0, 0);
+                w.report(0, 1, 1, 1);
+                w.pass(1);
+                w.pass(300);
+                event(w, 2, target + 1, 9, 0);
+                HelpDesk v = Desks.open(target, 10080, 480, 0, 0);
+                v.setAgents(0, 0);
+                v.report(0, 1, 1, 1);
+                v.pass(1);
+                v.pass(300);
+                event(v, 1, target + 1, 8, 0);
+            }
             HelpDesk z = Desks.open(10080, 10079, 480, 0, 0);
             z.setAgents(0, 0);
             z.report(0, 1, 1, 1);
@@ -327,6 +340,21 @@ final class MinuteSentences {
             s.due("after its work, once alone in this minute", w.levelOf(0), 1);
             w.pass(1);
             s.due("and in the next one again", w.levelOf(0), 2);
+            HelpDesk v = Desks.open(10080, 10080, 480, 0, 30);
+            v.setAgents(0, 0);
+            v.setAgents(1, 0);
+            v.setAgents(2, 0);
+            v.pass(10);
+            v.report(0, 1, 1, 1);
+            v.pass(20);
+            v.pause(0);
+            v.pass(7);
+            v.resume(0);
+            v.pass(300);
+            event(v, 3, 47, 4, 0);
+            event(v, 4, 77, 4, 0);
+            event(v, 5, 107, 4, 0);
+            event(v, 6, 107, 1, 0);
         });
         s.of("A ticket that climbs gets the next higher level", () -> {
             HelpDesk x = Desks.open(10080, 10080, 480, 3, 20);

@@ -303,6 +303,14 @@ final class QuerySentences {
             s.due("the greatest, without the ticket in work", x.resolvePercentile(100), 3);
             x.reopen(0);
             s.due("without the reopened one", x.resolvePercentile(100), 2);
+            HelpDesk y = Desks.calm(5);
+            for (int t = 0; t < 5; t++) {
+                y.pass(1);
+                y.solve(t);
+            }
+            for (int rank = 1; rank <= 5; rank++) {
+                s.due("the lowest number first", y.resolvePercentile(20 * rank), rank);
+            }
         });
         s.of("Let c be their number and r = p * c / 100, rounded up", () -> {
             int[][] due = {{1, 1, 1}, {1, 100, 1}, {2, 50, 1}, {2, 51, 2}, {3, 33, 1}, {3, 34, 2}, {3, 66, 2},

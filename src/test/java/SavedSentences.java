@@ -21,6 +21,8 @@ final class SavedSentences {
             x.restore(0);
             s.due("all is back", Desks.picture(x).equals(before), true);
             s.due("the kinds, too", x.report(1, 1, 1, 1), HelpDesk.NO_SUCH_KIND);
+            newTicket();
+            twoStates();
             HelpDesk full = Desks.withEvents(600);
             Desks.fillHistory(full);
             String all = Desks.picture(full);
@@ -88,6 +90,68 @@ final class SavedSentences {
             x.restore(1);
             s.due("slot 1 stays", x.now(), 7);
         });
+    }
+
+    /** Nothing is left of a ticket that came after the saved state, when its number is given again. */
+    private void newTicket() {
+        HelpDesk x = Desks.open(3, 3, 480, 0, 100);
+        x.save(0);
+        x.report(0, 1, 1, 1);
+        x.setAgents(0, 0);
+        x.pass(60);
+        x.setAgents(0, 1);
+        x.pass(60);
+        s.due("it was worked on", x.progress(0), 60);
+        x.restore(0);
+        s.due("the number is free again", x.report(0, 1, 1, 1), 0);
+        s.due("its numbers", x.progress(0) + x.levelOf(0) + x.responseClock(0) + x.resolveClock(0), 0);
+        s.due("its times", x.answeredAt(0) + x.solvedAt(0) + x.reportedAt(0), -2);
+        s.due("its breaches", x.responseBreaches(0) + x.resolveBreaches(0), 0);
+        x.setAgents(0, 0);
+        x.pass(99);
+        s.due("its level clock", x.levelOf(0), 0);
+    }
+
+    /** Two states that have as many of all things, but other ones, on the same object and on objects of their own. */
+    private void twoStates() {
+        HelpDesk x = new HelpDesk();
+        x.save(1);
+        fill(x, 0);
+        x.save(0);
+        x.restore(1);
+        fill(x, 1);
+        x.save(1);
+        for (int slot = 0; slot < 2; slot++) {
+            HelpDesk alone = new HelpDesk();
+            fill(alone, slot);
+            x.restore(slot);
+            s.due("slot " + slot, Desks.picture(x).equals(Desks.picture(alone)), true);
+            x.pass(2000);
+            alone.pass(2000);
+            s.due("slot " + slot + " later", Desks.picture(x).equals(Desks.picture(alone)), true);
+        }
+    }
+
+    private static void fill(HelpDesk x, int variant) {
+        boolean first = variant == 0;
+        x.addKind(first ? 5 : 30, first ? 40 : 9, first ? 20 : 31, first ? 0 : 2, first ? 15 : 0, first);
+        x.addKind(first ? 8 : 3, first ? 12 : 90, first ? 7 : 9, first ? 1 : 0, first ? 0 : 25, !first);
+        x.setDay(0, first ? 0 : 7, first ? 25 : 1000);
+        x.pass(first ? 2 : 540);
+        x.setAgents(first ? 1 : 0, first ? 0 : 2);
+        for (int t = 0; t < 6; t++) {
+            x.report(first ? t % 2 : (t + 1) % 2, first ? 20 : 60, first ? 5 : 6 + t % 3, first ? t % 4 : 3 - t % 4);
+            x.pass(first ? 3 : 1);
+        }
+        if (first) {
+            x.pause(3);
+            x.join(5, 4);
+        } else {
+            x.climb(0);
+            x.setPriority(2, 3);
+        }
+        x.pass(first ? 3 : 15);
+        x.solve(first ? 4 : 5);
     }
 
     private static void changeAll(HelpDesk x) {

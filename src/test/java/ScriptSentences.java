@@ -69,6 +69,8 @@ final class ScriptSentences {
             wrong("pas s 1;", 1, 0);
             wrong("passpass 1;", 1, 0);
             wrong("zpass 1;", 1, 0);
+            wrong("passz 1;", 1, 0);
+            wrong("tass 1;", 1, 0);
             wrong("pass 1z;", 1, 6);
             s.due("a run of digits is one number", sound("pass 109;", 1).now(), 109);
             wrong("pass 10 9;", 1, 8);
@@ -161,6 +163,14 @@ final class ScriptSentences {
             s.due("response target", x.logDetail(2), 1);
             s.due("resolve target", x.logDetail(3), 2);
             s.due("climb time", x.levelOf(1), 1);
+            x = sound("kind 100 200 30 1 40;day 0 0 1440;report 0 1 1 1;report 0 1 1 1;pass 29;", 5);
+            s.due("effort, a minute before", x.progress(0), 29);
+            Desks.run(x, "pass 1;");
+            s.due("effort, and the level that solves", x.levelOf(0), 1);
+            x = sound("kind 100 200 30 1 40;report 0 1 1 1;kind 100 200 30 1 40 always;report 1 1 1 1;pass 39;", 5);
+            s.due("climb time, a minute before", x.levelOf(1), 0);
+            Desks.run(x, "pass 1;");
+            s.due("climb time", x.levelOf(1), 1);
             HelpDesk y = Desks.calm(3);
             s.due("each with its arguments", Desks.run(y, "pause 2;climb 1;priority 0 3;join 0 1;pass 2;"), 5);
             s.due("pause", y.stateOf(2), Desks.PAUSED);
@@ -192,11 +202,22 @@ final class ScriptSentences {
                 wrong(text, 1, text.length());
             }
             wrong("pass" + spaces(396), 1, 400);
-            HelpDesk x = new HelpDesk();
-            Desks.append(x, "pass 123;");
-            x.truncateText(6);
-            s.due("what was cut off", x.runScript(), HelpDesk.SYNTAX_ERROR);
-            s.due("is not read", x.errorPosition(), 6);
+            for (String text : new String[] {"pass 123;", "pass    ;", "passpass;"}) {
+                HelpDesk x = new HelpDesk();
+                Desks.append(x, text);
+                x.truncateText(4);
+                s.due("what was cut off", x.runScript(), HelpDesk.SYNTAX_ERROR);
+                s.due("is not read", x.errorPosition(), 4);
+            }
+            HelpDesk y = new HelpDesk();
+            Desks.append(y, "pass 123;");
+            y.truncateText(6);
+            y.runScript();
+            s.due("digits that were cut off", y.errorPosition(), 6);
+            wrong("pass" + "x".repeat(396), 1, 0);
+            wrong("pass" + "1".repeat(396), 2, 4);
+            wrong(spaces(396) + "pass", 1, 400);
+            wrong(spaces(394) + "pass 1", 1, 400);
         });
         s.of("The error code is 1 if the token is not allowed there", () -> {
             wrong("1;", 1, 0);

@@ -409,25 +409,24 @@ public final class HelpDesk {
             return SYNTAX_ERROR;
         }
         for (int i = 0; i < script.statements; i++) {
-            int answer = callStatement(i);
+            int[] n = script.numbers[i];
+            int answer;
+            switch (script.verb[i]) {
+                case ADD_KIND:
+                    answer = addKind(n[0], n[1], n[2], n[3], n[4], script.always[i]);
+                    break;
+                case PASS:
+                    answer = pass(n[0]);
+                    break;
+                default:
+                    answer = change(script.verb[i], n[0], n[1], n[2], n[3]);
+            }
             if (answer < NONE) {
                 script.failure = answer;
                 return i;
             }
         }
         return script.statements;
-    }
-
-    private int callStatement(int index) {
-        int[] n = script.numbers[index];
-        switch (script.verb[index]) {
-            case ADD_KIND:
-                return addKind(n[0], n[1], n[2], n[3], n[4], script.always[index]);
-            case PASS:
-                return pass(n[0]);
-            default:
-                return change(script.verb[index], n[0], n[1], n[2], n[3]);
-        }
     }
 
     public int errorCode() {
@@ -706,7 +705,7 @@ public final class HelpDesk {
 
         /** Whether it is neither SOLVED nor a TWIN. */
         boolean standsAlone(int ticket) {
-            return isActive(ticket) || state[ticket] == PAUSED;
+            return state[ticket] != SOLVED && state[ticket] != TWIN;
         }
 
         boolean isAnswered(int ticket) {

@@ -16,11 +16,14 @@ public final class RandomRunsTest {
     private final int wildness;
     private final int stride;
     private final int run;
+    // Such a run is of changes above all and ends with every replay that can be asked for.
+    private final boolean replays;
     private int calls;
 
     private RandomRunsTest(int run) {
         this.run = run;
         random = new Random(run);
+        replays = run % 3 == 2;
         wildness = random.nextInt(3) == 0 ? 8 : 60;
         stride = new int[] {3, 30, 200}[random.nextInt(3)];
     }
@@ -43,14 +46,17 @@ public final class RandomRunsTest {
                 change("setDay", day, 0, 1440);
             }
         }
-        while (calls < 512) {
+        while (calls < (replays ? 468 : 512)) {
             step();
+        }
+        if (replays) {
+            everyReplay();
         }
     }
 
     private void step() {
         int which = random.nextInt(100);
-        if (which < 45) {
+        if (which < 45 || replays && which >= 75) {
             anyChange();
         } else if (which < 58) {
             pass();
@@ -86,9 +92,9 @@ public final class RandomRunsTest {
     }
 
     private void addKind() {
-        int response = random.nextBoolean() ? number(40) : number(10081);
-        int resolve = random.nextBoolean() ? number(150) : number(10081);
-        int effort = random.nextBoolean() ? 1 + number(40) : number(482);
+        int response = replays || random.nextBoolean() ? number(40) : number(10081);
+        int resolve = replays || random.nextBoolean() ? number(150) : number(10081);
+        int effort = replays || random.nextBoolean() ? 1 + number(40) : number(482);
         int level = number(4);
         int climb = random.nextBoolean() ? 0 : random.nextBoolean() ? number(60) : number(10081);
         boolean always = random.nextBoolean();
@@ -180,6 +186,16 @@ public final class RandomRunsTest {
             default:
                 int at = number(4);
                 due(46, "leastAgents " + at, x.leastAgents(at), r.leastAgents(at));
+        }
+    }
+
+    private void everyReplay() {
+        for (int level = 0; level < 4; level++) {
+            for (int number = 0; number < 10; number++) {
+                due(45, "breachesWith " + level + " " + number, x.breachesWith(level, number),
+                        r.breachesWith(level, number));
+            }
+            due(46, "leastAgents " + level, x.leastAgents(level), r.leastAgents(level));
         }
     }
 

@@ -5,16 +5,12 @@ import java.nio.file.Path;
 public final class BoundariesTest {
     public static void main(String[] args) throws IOException {
         Sentences s = new Sentences(Path.of("../shared/DOC.md"));
-        new PlainSentences(s).test();
-        new MinuteSentences(s).test();
-        new HistorySentences(s).test();
-        new CalendarSentences(s).test();
-        new ChangeSentences(s).test();
-        new TicketSentences(s).test();
-        new QuerySentences(s).test();
-        new ForecastSentences(s).test();
-        new ScriptSentences(s).test();
-        new SavedSentences(s).test();
+        Group[] groups = {new PlainSentences(s), new MinuteSentences(s), new HistorySentences(s),
+            new CalendarSentences(s), new ChangeSentences(s), new TicketSentences(s), new QuerySentences(s),
+            new ForecastSentences(s), new ScriptSentences(s), new SavedSentences(s)};
+        for (Group group : groups) {
+            group.test();
+        }
         s.finish();
     }
 }

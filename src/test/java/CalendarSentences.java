@@ -1,12 +1,12 @@
 /** The promises 1 to 10: a new object, the calendar, kinds and agents. */
-final class CalendarSentences {
+final class CalendarSentences extends Group {
     private static final int WRONG = HelpDesk.OUT_OF_RANGE;
-    private final Sentences s;
 
     CalendarSentences(Sentences sentences) {
-        s = sentences;
+        super(sentences);
     }
 
+    @Override
     void test() {
         newObject();
         setDay();
@@ -40,16 +40,6 @@ final class CalendarSentences {
         });
     }
 
-    private void days(String what, Sentence sentence) {
-        for (int day : Desks.beside(0, 6)) {
-            sentence.of(what + " " + day, day);
-        }
-    }
-
-    private interface Sentence {
-        void of(String what, int number);
-    }
-
     private void setDay() {
         s.under("Promise 2: setDay");
         s.of("Sets the opening hours of a day", () -> {
@@ -64,7 +54,9 @@ final class CalendarSentences {
             HelpDesk x = new HelpDesk();
             s.due("day 0", x.setDay(0, 1, 2), 0);
             s.due("day 6", x.setDay(6, 1, 2), 0);
-            days("setDay", (what, day) -> s.unchanged(x, what, d -> d.setDay(day, 1, 2), WRONG));
+            for (int day : Desks.beside(0, 6)) {
+                s.unchanged(x, "day " + day, d -> d.setDay(day, 1, 2), WRONG);
+            }
         });
         s.of("- `opening`: the opening minute, 0 to 1439, or 0 if", () -> {
             HelpDesk x = new HelpDesk();
@@ -119,39 +111,29 @@ final class CalendarSentences {
 
     private void hours() {
         s.under("Promise 3: openingMinute");
-        s.of("- `day`: 0 to 6", () -> {
-            HelpDesk x = new HelpDesk();
-            x.setDay(0, 1, 2);
-            x.setDay(6, 3, 4);
-            s.due("0", x.openingMinute(0), 1);
-            s.due("6", x.openingMinute(6), 3);
-        });
-        s.of("Returns the opening minute", () -> {
-            HelpDesk x = new HelpDesk();
-            s.due("at first", x.openingMinute(4), 540);
-            s.due("of a closed day", x.openingMinute(5), 0);
-            x.setDay(5, 1439, 1440);
-            s.due("the greatest", x.openingMinute(5), 1439);
-        });
-        s.of("OUT_OF_RANGE", () -> days("openingMinute",
-                (what, day) -> s.unchanged(new HelpDesk(), what, d -> d.openingMinute(day), WRONG)));
+        hoursOf(HelpDesk::openingMinute, "Returns the opening minute", 1, 540, 1439);
         s.under("Promise 4: closingMinute");
+        hoursOf(HelpDesk::closingMinute, "Returns the closing minute", 2, 1020, 1440);
+    }
+
+    /** Due are the hours of a day from 1 to 2, of the first calendar, and of a day that opens in its last minute. */
+    private void hoursOf(Call call, String returns, int set, int first, int last) {
         s.of("- `day`: 0 to 6", () -> {
-            HelpDesk x = new HelpDesk();
-            x.setDay(0, 1, 2);
-            x.setDay(6, 3, 4);
-            s.due("0", x.closingMinute(0), 2);
-            s.due("6", x.closingMinute(6), 4);
+            for (int day : new int[] {0, 6}) {
+                HelpDesk x = new HelpDesk();
+                x.setDay(day, 1, 2);
+                s.due("day " + day, call.of(x, day), set);
+                s.due("another day", call.of(x, 1), first);
+            }
         });
-        s.of("Returns the closing minute", () -> {
+        s.of(returns, () -> {
             HelpDesk x = new HelpDesk();
-            s.due("at first", x.closingMinute(4), 1020);
-            s.due("of a closed day", x.closingMinute(5), 0);
+            s.due("at first", call.of(x, 4), first);
+            s.due("of a closed day", call.of(x, 5), 0);
             x.setDay(5, 1439, 1440);
-            s.due("the greatest", x.closingMinute(5), 1440);
+            s.due("the greatest", call.of(x, 5), last);
         });
-        s.of("OUT_OF_RANGE", () -> days("closingMinute",
-                (what, day) -> s.unchanged(new HelpDesk(), what, d -> d.closingMinute(day), WRONG)));
+        refused("OUT_OF_RANGE", call, 0, 6, WRONG);
     }
 
     private void isOpen() {
@@ -177,11 +159,7 @@ final class CalendarSentences {
                 s.due("minute " + d[0] + " by the present calendar", x.isOpen(d[0]), d[1]);
             }
         });
-        s.of("OUT_OF_RANGE", () -> {
-            for (int minute : Desks.beside(0, 10079)) {
-                s.unchanged(new HelpDesk(), "isOpen " + minute, d -> d.isOpen(minute), WRONG);
-            }
-        });
+        refused("OUT_OF_RANGE", HelpDesk::isOpen, 0, 10079, WRONG);
     }
 
     private void openMinutes() {
@@ -396,10 +374,6 @@ final class CalendarSentences {
             x.setAgents(1, 9);
             s.due("nine", x.agents(1), 9);
         });
-        s.of("OUT_OF_RANGE", () -> {
-            for (int level : Desks.beside(0, 3)) {
-                s.unchanged(new HelpDesk(), "agents " + level, d -> d.agents(level), WRONG);
-            }
-        });
+        refused("OUT_OF_RANGE", HelpDesk::agents, 0, 3, WRONG);
     }
 }

@@ -23,6 +23,7 @@ import javax.tools.ToolProvider;
 public final class CallsTest {
     private static final Check check = new Check();
     private static final int DEEPEST = 8;
+    // What the class uses of the library; LANGUAGE.md allows more.
     private static final Set<String> LIBRARY = Set.of("java.lang.Object.<init>", "java.lang.String.length",
             "java.lang.String.charAt", "java.lang.System.arraycopy", "java.util.Arrays.fill", "java.lang.Math.min",
             "java.lang.Math.max", "java.lang.Long.bitCount");
@@ -59,7 +60,8 @@ public final class CallsTest {
 
     /** How many methods stand open at once when this one is called, itself among them. */
     private int depth(String method, Deque<String> open) {
-        check.due(8, "rule 8 of LANGUAGE.md: " + method + " calls itself through " + open, open.contains(method), false);
+        check.due(8, "rule 8 of LANGUAGE.md: " + method + " calls itself through " + open, open.contains(method),
+                false);
         if (depths.containsKey(method) || open.contains(method)) {
             return depths.getOrDefault(method, 0);
         }

@@ -1,17 +1,13 @@
 /** The promises 11 to 19: the changes of tickets. */
-final class ChangeSentences {
+final class ChangeSentences extends Group {
     private static final int NO_TICKET = HelpDesk.NO_SUCH_TICKET;
     private static final int WRONG_STATE = HelpDesk.WRONG_STATE;
-    private final Sentences s;
 
     ChangeSentences(Sentences sentences) {
-        s = sentences;
+        super(sentences);
     }
 
-    private interface Change {
-        int of(HelpDesk x, int ticket);
-    }
-
+    @Override
     void test() {
         report();
         reportAnswers();
@@ -30,7 +26,7 @@ final class ChangeSentences {
     }
 
     /** The first and the last of sixty tickets, each brought first into a state that allows the change. */
-    private void ticketNumbers(Change before, Change change, String sentence) {
+    private void ticketNumbers(Call before, Call change, String sentence) {
         s.of(sentence, () -> {
             for (int ticket : new int[] {0, 59}) {
                 HelpDesk x = Desks.calm(60);
@@ -40,31 +36,12 @@ final class ChangeSentences {
         });
     }
 
-    private void ticketNumbers(Change before, Change change) {
+    private void ticketNumbers(Call before, Call change) {
         ticketNumbers(before, change, "- `ticket`: the number of a ticket");
     }
 
-    private void noSuchTicket(Change change) {
-        s.of("NO_SUCH_TICKET", () -> {
-            s.unchanged(new HelpDesk(), "ticket 0 of none", d -> change.of(d, 0), NO_TICKET);
-            for (int ticket : Desks.beside(0, 6)) {
-                s.unchanged(Desks.ofEveryState(), "ticket " + ticket, d -> change.of(d, ticket), NO_TICKET);
-            }
-            HelpDesk x = Desks.calm(60);
-            s.unchanged(x, "ticket 60", d -> change.of(d, 60), NO_TICKET);
-            s.unchanged(x, "ticket 64", d -> change.of(d, 64), NO_TICKET);
-            Desks.fillHistory(x);
-            s.unchanged(x, "before full", d -> change.of(d, 60), NO_TICKET);
-            HelpDesk y = Desks.calm(1);
-            y.save(0);
-            y.report(0, 1, 1, 1);
-            y.restore(0);
-            s.unchanged(y, "a ticket that is no more", d -> change.of(d, 1), NO_TICKET);
-        });
-    }
-
     /** Of the seven tickets of ofEveryState these alone allow the change. */
-    private void states(Change change, int... allowed) {
+    private void states(Call change, int... allowed) {
         for (int ticket = 0; ticket < 7; ticket++) {
             boolean allows = false;
             for (int a : allowed) {
@@ -83,7 +60,7 @@ final class ChangeSentences {
     }
 
     /** The change is the two hundredth of the history, or the one behind it. */
-    private void full(Change change, int ticket) {
+    private void full(Call change, int ticket) {
         s.of("FULL", () -> {
             HelpDesk x = Desks.ofEveryState();
             for (int i = x.historyLength(); i < 199; i++) {
@@ -435,7 +412,7 @@ final class ChangeSentences {
             y.join(2, 1);
             s.due("ticket 0 as the own twin", y.rootOf(0), 1);
         });
-        Change toTheOther = (x, t) -> x.join(t, 59 - t);
+        Call toTheOther = (x, t) -> x.join(t, 59 - t);
         ticketNumbers((x, t) -> 0, toTheOther, "- `ticket`: the number of a ticket that is QUEUED, IN WORK or PAUSED");
         ticketNumbers((x, t) -> 0, (x, t) -> x.join(59 - t, t), "- `root`: the number of another ticket that is");
     }

@@ -1,16 +1,12 @@
 /** The promises 43 to 52: forecasts, replays, the history and the log. */
-final class ForecastSentences {
+final class ForecastSentences extends Group {
     private static final int WRONG = HelpDesk.OUT_OF_RANGE;
-    private final Sentences s;
 
     ForecastSentences(Sentences sentences) {
-        s = sentences;
+        super(sentences);
     }
 
-    private interface Question {
-        int of(HelpDesk x, int index);
-    }
-
+    @Override
     void test() {
         forecast();
         forecastAnswers();
@@ -82,13 +78,7 @@ final class ForecastSentences {
             s.due("at 10080", x.forecast(1), HelpDesk.NONE);
             s.due("paused", Desks.ofEveryState().forecast(2), HelpDesk.NONE);
         });
-        s.of("NO_SUCH_TICKET", () -> {
-            s.unchanged(new HelpDesk(), "ticket 0 of none", d -> d.forecast(0), HelpDesk.NO_SUCH_TICKET);
-            for (int ticket : Desks.beside(0, 6)) {
-                s.unchanged(Desks.ofEveryState(), "of " + ticket, d -> d.forecast(ticket), HelpDesk.NO_SUCH_TICKET);
-            }
-            s.unchanged(Desks.calm(60), "of 60", d -> d.forecast(60), HelpDesk.NO_SUCH_TICKET);
-        });
+        noSuchTicket(HelpDesk::forecast);
     }
 
     private void breachesAhead() {
@@ -207,12 +197,7 @@ final class ForecastSentences {
             s.due("ten would be needed", x.leastAgents(0), HelpDesk.NONE);
             s.due("of another level", x.leastAgents(3), HelpDesk.NONE);
         });
-        s.of("OUT_OF_RANGE", () -> {
-            for (int level : Desks.beside(0, 3)) {
-                s.unchanged(new HelpDesk(), "level " + level, d -> d.leastAgents(level), WRONG);
-                s.unchanged(Desks.ofEveryState(), "level " + level, d -> d.leastAgents(level), WRONG);
-            }
-        });
+        refused("OUT_OF_RANGE", HelpDesk::leastAgents, 0, 3, WRONG);
     }
 
     private void historyAndLog() {
@@ -251,13 +236,13 @@ final class ForecastSentences {
     }
 
     /** Due are the events 0, 59, 598 and 599 of a full log, a reopening and a breach. */
-    private void event(String head, String returns, Question question, int... due) {
+    private void event(String head, String returns, Call call, int... due) {
         s.under(head);
         s.of("- `index`: an index, 0 for the first event", () -> {
             HelpDesk x = Desks.withEvents(600);
             int[] indices = {0, 59, 598, 599};
             for (int i = 0; i < indices.length; i++) {
-                s.due("event " + indices[i], question.of(x, indices[i]), due[i]);
+                s.due("event " + indices[i], call.of(x, indices[i]), due[i]);
             }
         });
         s.of(returns, () -> {
@@ -265,26 +250,26 @@ final class ForecastSentences {
             x.pass(30);
             x.solve(0);
             x.reopen(0);
-            s.due("reopened", question.of(x, 3), due[4]);
+            s.due("reopened", call.of(x, 3), due[4]);
             HelpDesk y = Desks.open(3, 10080, 480, 0, 0);
             y.setAgents(0, 0);
             Desks.report(y, 3);
             y.solve(0);
             y.solve(1);
             y.pass(10080);
-            s.due("breach", question.of(y, 5), due[5]);
+            s.due("breach", call.of(y, 5), due[5]);
         });
         s.of("OUT_OF_RANGE", () -> {
-            s.unchanged(new HelpDesk(), "0 of none", d -> question.of(d, 0), WRONG);
+            s.unchanged(new HelpDesk(), "0 of none", d -> call.of(d, 0), WRONG);
             HelpDesk x = Desks.withEvents(600);
             for (int index : Desks.beside(0, 599)) {
-                s.unchanged(x, "event " + index, d -> question.of(d, index), WRONG);
+                s.unchanged(x, "event " + index, d -> call.of(d, index), WRONG);
             }
             HelpDesk y = Desks.calm(1);
             y.save(0);
             y.report(0, 1, 1, 1);
             y.restore(0);
-            s.unchanged(y, "1 of one", d -> question.of(d, 1), WRONG);
+            s.unchanged(y, "1 of one", d -> call.of(d, 1), WRONG);
         });
     }
 }

@@ -1,11 +1,10 @@
 /** The sentences on the history, on replays and on the log. */
-final class HistorySentences {
-    private final Sentences s;
-
+final class HistorySentences extends Group {
     HistorySentences(Sentences sentences) {
-        s = sentences;
+        super(sentences);
     }
 
+    @Override
     void test() {
         s.under("HISTORY");
         changes();

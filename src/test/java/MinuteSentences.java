@@ -1,11 +1,10 @@
 /** The sentences on what is done when a minute passes. */
-final class MinuteSentences {
-    private final Sentences s;
-
+final class MinuteSentences extends Group {
     MinuteSentences(Sentences sentences) {
-        s = sentences;
+        super(sentences);
     }
 
+    @Override
     void test() {
         s.under("A MINUTE");
         order();
@@ -19,12 +18,6 @@ final class MinuteSentences {
         climbing();
         times();
         solvedTwins();
-    }
-
-    private void event(HelpDesk x, int index, int time, int type, int ticket) {
-        s.due("time of event " + index, x.logTime(index), time);
-        s.due("type of event " + index, x.logType(index), type);
-        s.due("ticket of event " + index, x.logTicket(index), ticket);
     }
 
     private void order() {

@@ -1,11 +1,10 @@
 /** The sentences on the whole, on time, kinds, levels, tickets and errors. */
-final class PlainSentences {
-    private final Sentences s;
-
+final class PlainSentences extends Group {
     PlainSentences(Sentences sentences) {
-        s = sentences;
+        super(sentences);
     }
 
+    @Override
     void test() {
         whatItIs();
         time();

@@ -1,15 +1,10 @@
 /** The promises 35 to 42: queues, customers and breaches. */
-final class QuerySentences {
-    private final Sentences s;
-
+final class QuerySentences extends Group {
     QuerySentences(Sentences sentences) {
-        s = sentences;
+        super(sentences);
     }
 
-    private interface Question {
-        long of(HelpDesk x, int number);
-    }
-
+    @Override
     void test() {
         queueLength();
         nextTicket();
@@ -17,19 +12,8 @@ final class QuerySentences {
         suggestRoot();
         suggestRootAnswers();
         customerTickets();
-        responseBreaches();
-        resolveBreaches();
+        breaches();
         resolvePercentile();
-    }
-
-    /** The numbers beside a range are refused, by an empty desk and by one with tickets. */
-    private void refused(String sentence, Question question, int least, int most, int error) {
-        s.of(sentence, () -> {
-            for (int number : Desks.beside(least, most)) {
-                s.unchanged(new HelpDesk(), "of " + number, d -> question.of(d, number), error);
-                s.unchanged(Desks.ofEveryState(), "of " + number, d -> question.of(d, number), error);
-            }
-        });
     }
 
     /** Of sixty tickets five are at level 3, and the others at level 0; each level has an agent. */
@@ -224,63 +208,56 @@ final class QuerySentences {
         return x;
     }
 
-    private void kindNumbers(Question question) {
+    private void kindNumbers(Call call) {
         s.of("- `kind`: the number of a kind, or NONE for all kinds", () -> {
             HelpDesk x = sixKinds(5, 5);
             x.pass(6);
-            s.due("kind 0", question.of(x, 0), 1);
-            s.due("kind 1", question.of(x, 1), 0);
-            s.due("kind 5", question.of(x, 5), 2);
-            s.due("all", question.of(x, HelpDesk.NONE), 3);
-            s.due("all of none", question.of(new HelpDesk(), HelpDesk.NONE), 0);
+            s.due("kind 0", call.of(x, 0), 1);
+            s.due("kind 1", call.of(x, 1), 0);
+            s.due("kind 5", call.of(x, 5), 2);
+            s.due("all", call.of(x, HelpDesk.NONE), 3);
+            s.due("all of none", call.of(new HelpDesk(), HelpDesk.NONE), 0);
         });
         s.of("NO_SUCH_KIND", () -> {
-            s.unchanged(new HelpDesk(), "kind 0 of none", d -> question.of(d, 0), HelpDesk.NO_SUCH_KIND);
+            s.unchanged(new HelpDesk(), "kind 0 of none", d -> call.of(d, 0), HelpDesk.NO_SUCH_KIND);
             for (int kind : new int[] {-2, 6, Integer.MIN_VALUE, Integer.MAX_VALUE}) {
-                s.unchanged(sixKinds(5, 5), "kind " + kind, d -> question.of(d, kind), HelpDesk.NO_SUCH_KIND);
+                s.unchanged(sixKinds(5, 5), "kind " + kind, d -> call.of(d, kind), HelpDesk.NO_SUCH_KIND);
             }
-            s.unchanged(Desks.calm(1), "kind 1 of one", d -> question.of(d, 1), HelpDesk.NO_SUCH_KIND);
+            s.unchanged(Desks.calm(1), "kind 1 of one", d -> call.of(d, 1), HelpDesk.NO_SUCH_KIND);
         });
     }
 
-    private void responseBreaches() {
+    private void breaches() {
         s.under("Promise 40: responseBreaches");
         kindNumbers(HelpDesk::responseBreaches);
         s.of("Returns the number of tickets of that kind that had a response breach", () -> {
-            HelpDesk x = sixKinds(5, 10080);
-            x.pass(5);
-            s.due("at the target", x.responseBreaches(5), 0);
+            countOf(sixKinds(5, 10080), HelpDesk::responseBreaches, HelpDesk::resolveBreaches);
+            HelpDesk x = Desks.open(0, 10080, 480, 0, 0);
+            Desks.report(x, 60);
             x.pass(1);
-            s.due("above it", x.responseBreaches(5), 2);
-            x.solve(1);
-            x.pass(100);
-            s.due("solved ones too, once each", x.responseBreaches(5), 2);
-            s.due("no resolve breaches", x.resolveBreaches(5), 0);
-            HelpDesk y = Desks.open(0, 10080, 480, 0, 0);
-            Desks.report(y, 60);
-            y.pass(1);
-            s.due("all sixty but the one in work", y.responseBreaches(0), 59);
+            s.due("all sixty but the one in work", x.responseBreaches(0), 59);
         });
-    }
-
-    private void resolveBreaches() {
         s.under("Promise 41: resolveBreaches");
         kindNumbers(HelpDesk::resolveBreaches);
         s.of("Returns the number of tickets of that kind that had a resolve breach", () -> {
-            HelpDesk x = sixKinds(10080, 5);
-            x.pass(5);
-            s.due("at the target", x.resolveBreaches(5), 0);
+            countOf(sixKinds(10080, 5), HelpDesk::resolveBreaches, HelpDesk::responseBreaches);
+            HelpDesk x = Desks.open(10080, 0, 480, 0, 0);
+            Desks.report(x, 60);
             x.pass(1);
-            s.due("above it", x.resolveBreaches(5), 2);
-            x.solve(1);
-            x.pass(100);
-            s.due("solved ones too, once each", x.resolveBreaches(5), 2);
-            s.due("no response breaches", x.responseBreaches(5), 0);
-            HelpDesk y = Desks.open(10080, 0, 480, 0, 0);
-            Desks.report(y, 60);
-            y.pass(1);
-            s.due("all sixty", y.resolveBreaches(0), 60);
+            s.due("all sixty", x.resolveBreaches(0), 60);
         });
+    }
+
+    /** The clock that the call looks at has the target 5, the other one a target of a week. */
+    private void countOf(HelpDesk x, Call call, Call other) {
+        x.pass(5);
+        s.due("at the target", call.of(x, 5), 0);
+        x.pass(1);
+        s.due("above it", call.of(x, 5), 2);
+        x.solve(1);
+        x.pass(100);
+        s.due("solved ones too, once each", call.of(x, 5), 2);
+        s.due("no other breaches", other.of(x, 5), 0);
     }
 
     /** So many tickets, solved from the highest number down, with the resolve clocks 1, 2, 3 and so on. */

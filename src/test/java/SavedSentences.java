@@ -1,11 +1,10 @@
 /** The promises 59 and 60: saved states. */
-final class SavedSentences {
-    private final Sentences s;
-
+final class SavedSentences extends Group {
     SavedSentences(Sentences sentences) {
-        s = sentences;
+        super(sentences);
     }
 
+    @Override
     void test() {
         save();
         restore();

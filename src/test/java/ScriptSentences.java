@@ -1,11 +1,10 @@
 /** The sentences on scripts, and the promises 53 to 58. */
-final class ScriptSentences {
-    private final Sentences s;
-
+final class ScriptSentences extends Group {
     ScriptSentences(Sentences sentences) {
-        s = sentences;
+        super(sentences);
     }
 
+    @Override
     void test() {
         s.under("SCRIPTS");
         buffer();
@@ -198,7 +197,8 @@ final class ScriptSentences {
             wrong("pass 1; nothing", 1, 8);
             wrong("   123", 1, 3);
             wrong("pass 1; pass 100000;", 2, 13);
-            for (String text : new String[] {"pass", "pass ", "pass 1", "pass 1 \n", "day 1 1", "kind 1 1 1 1 1 always"}) {
+            for (String text : new String[] {"pass", "pass ", "pass 1", "pass 1 \n", "day 1 1",
+                "kind 1 1 1 1 1 always"}) {
                 wrong(text, 1, text.length());
             }
             wrong("pass" + spaces(396), 1, 400);

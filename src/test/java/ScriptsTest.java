@@ -20,22 +20,8 @@ public final class ScriptsTest {
         check.finish();
     }
 
-    /** Appends the text, filled up with spaces, and cuts these off again. */
-    private static void append(HelpDesk x, String text) {
-        int length = 0;
-        for (int i = 0; i < text.length(); i += 4) {
-            int bytes = 0;
-            for (int k = i; k < i + 4; k++) {
-                bytes = bytes << 8 | (k < text.length() ? text.charAt(k) : ' ');
-            }
-            length = x.appendText(bytes);
-        }
-        x.truncateText(length - Math.floorMod(-text.length(), 4));
-    }
-
     private static int run(HelpDesk x, String text) {
-        append(x, text);
-        return x.runScript();
+        return Desks.run(x, text);
     }
 
     private static void appendText() {
@@ -214,7 +200,7 @@ public final class ScriptsTest {
     private static void endsOfTexts() {
         for (String text : new String[] {"pass 123", "pass    ", "passpass"}) {
             HelpDesk x = new HelpDesk();
-            append(x, text);
+            Desks.append(x, text);
             x.truncateText(6);
             check.due(55, "cut: " + text, x.runScript(), HelpDesk.SYNTAX_ERROR);
             check.due(57, "cut: " + text, x.errorPosition(), text.equals("passpass") ? 0 : 6);
@@ -282,10 +268,10 @@ public final class ScriptsTest {
         run(x, "pause 0;");
         check.due(58, "failure", x.scriptFailure(), HelpDesk.NO_SUCH_TICKET);
         wrong(x, "pass 100000", 2, 5);
-        append(x, "pass 1");
+        Desks.append(x, "pass 1");
         check.due(56, "until the next run", x.errorCode(), 2);
         check.due(57, "until the next run", x.errorPosition(), 5);
-        append(x, ";");
+        Desks.append(x, ";");
         check.due(55, "sound", x.runScript(), 1);
         check.due(56, "sound", x.errorCode(), 0);
         check.due(57, "sound", x.errorPosition(), HelpDesk.NONE);

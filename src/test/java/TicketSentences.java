@@ -1,15 +1,10 @@
 /** The promises 20 to 34: time, and what is told of a ticket. */
-final class TicketSentences {
-    private final Sentences s;
-
+final class TicketSentences extends Group {
     TicketSentences(Sentences sentences) {
-        s = sentences;
+        super(sentences);
     }
 
-    private interface Question {
-        long of(HelpDesk x, int ticket);
-    }
-
+    @Override
     void test() {
         pass();
         nowAndCount();
@@ -101,7 +96,7 @@ final class TicketSentences {
     }
 
     /** The sentences that stand with every question about a ticket; the first and the last of sixty answer so. */
-    private void numbers(Question question, long first, long last) {
+    private void numbers(Call call, long first, long last) {
         s.of("- `ticket`: the number of a ticket", () -> {
             HelpDesk x = Desks.calm(58);
             x.addKind(1, 1, 1, 0, 0, true);
@@ -110,24 +105,10 @@ final class TicketSentences {
             x.report(1, 1, 1, 3);
             x.join(58, 0);
             x.pass(1);
-            s.due("ticket 0", question.of(x, 0), first);
-            s.due("ticket 59", question.of(x, 59), last);
+            s.due("ticket 0", call.of(x, 0), first);
+            s.due("ticket 59", call.of(x, 59), last);
         });
-        s.of("NO_SUCH_TICKET", () -> {
-            long no = HelpDesk.NO_SUCH_TICKET;
-            s.unchanged(new HelpDesk(), "ticket 0 of none", d -> question.of(d, 0), no);
-            for (int ticket : Desks.beside(0, 6)) {
-                s.unchanged(Desks.ofEveryState(), "ticket " + ticket, d -> question.of(d, ticket), no);
-            }
-            HelpDesk x = Desks.calm(60);
-            s.unchanged(x, "ticket 60", d -> question.of(d, 60), no);
-            s.unchanged(x, "ticket 64", d -> question.of(d, 64), no);
-            HelpDesk y = Desks.calm(1);
-            y.save(0);
-            y.report(0, 1, 1, 1);
-            y.restore(0);
-            s.unchanged(y, "a ticket that is no more", d -> question.of(d, 1), no);
-        });
+        noSuchTicket(call);
     }
 
     private void state() {

@@ -22,6 +22,7 @@ final class SavedSentences extends Group {
             s.due("the kinds, too", x.report(1, 1, 1, 1), HelpDesk.NO_SUCH_KIND);
             newTicket();
             twoStates();
+            priorities();
             HelpDesk full = Desks.withEvents(600);
             Desks.fillHistory(full);
             String all = Desks.picture(full);
@@ -129,6 +130,24 @@ final class SavedSentences extends Group {
             alone.pass(2000);
             s.due("slot " + slot + " later", Desks.picture(x).equals(Desks.picture(alone)), true);
         }
+    }
+
+    /** The priorities of the reports in the history, of which alone it hangs who waits in the replay. */
+    private void priorities() {
+        HelpDesk x = Desks.open(5, 10080, 20, 0, 0);
+        x.addKind(10080, 10080, 20, 0, 0, true);
+        x.save(0);
+        x.report(0, 1, 1, 3);
+        x.report(1, 1, 1, 0);
+        x.pass(100);
+        x.save(1);
+        x.restore(0);
+        x.report(0, 1, 1, 0);
+        x.report(1, 1, 1, 3);
+        x.pass(100);
+        s.due("the one in a hurry comes second", x.breachesWith(0, 1), 1);
+        x.restore(1);
+        s.due("the one in a hurry comes first", x.breachesWith(0, 1), 0);
     }
 
     private static void fill(HelpDesk x, int variant) {

@@ -152,6 +152,7 @@ final class ScriptSentences extends Group {
     private void calls() {
         s.of("They call setDay, addKind, setAgents", () -> {
             HelpDesk x = sound("kind 100 200 30 1 40;kind 1 2 480 3 4 always;day 6 1 1440;agents 2 9;", 4);
+            s.due("no minutes pass", x.now(), 0);
             s.due("day", x.openingMinute(6) * 10000 + x.closingMinute(6), 11440);
             s.due("agents", x.agents(2), 9);
             s.due("no agents for now", Desks.run(x, "agents 0 0;report 0 98 997 3;report 1 1 1 1;pass 5;"), 4);

@@ -78,7 +78,7 @@ public final class HelpDesk {
     public HelpDesk() {
         live = new State();
         saved = new State[SLOTS];
-        trial = new Desk(live.kinds, new Log(0));
+        trial = new Desk(0);
         script = new Script();
     }
 
@@ -117,11 +117,11 @@ public final class HelpDesk {
                 || !within(level, 0, TOP_LEVEL) || !within(climb, 0, WEEK)) {
             return OUT_OF_RANGE;
         }
-        return live.kinds.add(response, resolve, effort, level, climb, always);
+        return live.desk.kinds.add(response, resolve, effort, level, climb, always);
     }
 
     public int kindCount() {
-        return live.kinds.count;
+        return live.desk.kinds.count;
     }
 
     public int setAgents(int level, int number) {
@@ -280,11 +280,11 @@ public final class HelpDesk {
     }
 
     public int responseBreaches(int kind) {
-        return within(kind, NONE, live.kinds.count - 1) ? live.desk.lateResponses(kind) : NO_SUCH_KIND;
+        return within(kind, NONE, live.desk.kinds.count - 1) ? live.desk.lateResponses(kind) : NO_SUCH_KIND;
     }
 
     public int resolveBreaches(int kind) {
-        return within(kind, NONE, live.kinds.count - 1) ? live.desk.lateSolutions(kind) : NO_SUCH_KIND;
+        return within(kind, NONE, live.desk.kinds.count - 1) ? live.desk.lateSolutions(kind) : NO_SUCH_KIND;
     }
 
     public int resolvePercentile(int p) {
@@ -336,7 +336,8 @@ public final class HelpDesk {
     }
 
     private int breachesInReplay(int level, int number) {
-        trial.begin();
+        trial.beginWeek();
+        trial.kinds.copyFrom(live.desk.kinds);
         trial.agents[level] = number;
         History history = live.history;
         for (int i = 0; i < history.length; i++) {
@@ -364,27 +365,27 @@ public final class HelpDesk {
     // ---- log
 
     public int logSize() {
-        return live.log.size;
+        return live.desk.log.size;
     }
 
     public int logTime(int index) {
-        return ofEvent(live.log.time, index);
+        return ofEvent(live.desk.log.time, index);
     }
 
     public int logType(int index) {
-        return ofEvent(live.log.type, index);
+        return ofEvent(live.desk.log.type, index);
     }
 
     public int logTicket(int index) {
-        return ofEvent(live.log.ticket, index);
+        return ofEvent(live.desk.log.ticket, index);
     }
 
     public int logDetail(int index) {
-        return ofEvent(live.log.detail, index);
+        return ofEvent(live.desk.log.detail, index);
     }
 
     private int ofEvent(int[] column, int index) {
-        return within(index, 0, live.log.size - 1) ? column[index] : OUT_OF_RANGE;
+        return within(index, 0, live.desk.log.size - 1) ? column[index] : OUT_OF_RANGE;
     }
 
     // ---- scripts
@@ -474,24 +475,12 @@ public final class HelpDesk {
 
     /** All that save and restore carry. */
     private static final class State {
-        final Kinds kinds;
-        final Log log;
-        final History history;
-        final Desk desk;
-
-        State() {
-            kinds = new Kinds();
-            log = new Log(EVENTS);
-            history = new History();
-            desk = new Desk(kinds, log);
-            desk.begin();
-        }
+        final Desk desk = new Desk(EVENTS);
+        final History history = new History();
 
         void copyFrom(State other) {
-            kinds.copyFrom(other.kinds);
-            log.copyFrom(other.log);
-            history.copyFrom(other.history);
             desk.copyFrom(other.desk);
+            history.copyFrom(other.history);
         }
     }
 
@@ -821,19 +810,20 @@ public final class HelpDesk {
 
     /** What a change or a minute acts upon: the live desk, or the one on which it is tried. */
     private static final class Desk {
-        final Kinds kinds;
-        final Log log;
         final Calendar calendar = new Calendar();
-        final Tickets tickets = new Tickets();
+        final Kinds kinds = new Kinds();
         final int[] agents = new int[LEVELS];
+        final Tickets tickets = new Tickets();
+        final Log log;
         int time;
 
-        Desk(Kinds kinds, Log log) {
-            this.kinds = kinds;
-            this.log = log;
+        Desk(int eventRoom) {
+            log = new Log(eventRoom);
+            beginWeek();
         }
 
-        void begin() {
+        /** The kinds stay: they are no part of the history, so a replay has them from the beginning. */
+        void beginWeek() {
             time = 0;
             calendar.begin();
             Arrays.fill(agents, 1);
@@ -843,8 +833,10 @@ public final class HelpDesk {
         void copyFrom(Desk other) {
             time = other.time;
             calendar.copyFrom(other.calendar);
+            kinds.copyFrom(other.kinds);
             System.arraycopy(other.agents, 0, agents, 0, LEVELS);
             tickets.copyFrom(other.tickets);
+            log.copyFrom(other.log);
         }
 
         // ---- changes

@@ -106,17 +106,16 @@ final class Desks {
         return length;
     }
 
-    /** All that a desk tells, but for a saved state. */
+    /** All that a desk tells, but for a saved state; forecasts and replays come last, lest they change the rest. */
     static String picture(HelpDesk x) {
         StringBuilder p = new StringBuilder();
         add(p, x.now(), x.kindCount(), x.ticketCount(), x.historyLength(), x.logSize(), textLength(x));
-        add(p, x.errorCode(), x.errorPosition(), x.scriptFailure(), x.breachesAhead(), x.openMinutes(0, 10080));
+        add(p, x.errorCode(), x.errorPosition(), x.scriptFailure(), x.openMinutes(0, 10080));
         for (int day = 0; day < 7; day++) {
             add(p, x.openingMinute(day), x.closingMinute(day));
         }
         for (int level = 0; level < 4; level++) {
             add(p, x.agents(level), x.queueLength(level), x.nextTicket(level), x.busyAgents(level));
-            add(p, x.breachesWith(level, 0), x.breachesWith(level, 1), x.leastAgents(level));
         }
         for (int kind = -1; kind < x.kindCount(); kind++) {
             add(p, x.responseBreaches(kind), x.resolveBreaches(kind));
@@ -128,12 +127,23 @@ final class Desks {
         for (int t = 0; t < x.ticketCount(); t++) {
             add(p, x.stateOf(t), x.kindOf(t), x.levelOf(t), x.priorityOf(t), x.progress(t), x.rootOf(t), x.twins(t));
             add(p, x.reportedAt(t), x.answeredAt(t), x.solvedAt(t), x.responseClock(t), x.resolveClock(t));
-            add(p, x.suggestRoot(t), x.forecast(t));
+            add(p, x.suggestRoot(t));
         }
         for (int i = 0; i < x.logSize(); i++) {
             add(p, x.logTime(i), x.logType(i), x.logTicket(i), x.logDetail(i));
         }
+        forecasts(p, x);
         return p.toString();
+    }
+
+    private static void forecasts(StringBuilder p, HelpDesk x) {
+        for (int t = 0; t < x.ticketCount(); t++) {
+            add(p, x.forecast(t));
+        }
+        add(p, x.breachesAhead());
+        for (int level = 0; level < 4; level++) {
+            add(p, x.breachesWith(level, 0), x.breachesWith(level, 1), x.leastAgents(level));
+        }
     }
 
     private static void add(StringBuilder picture, long... numbers) {

@@ -44,7 +44,26 @@ final class ForecastSentences extends Group {
             Desks.report(x, 60);
             s.due("ticket 0", x.forecast(0), 1);
             s.due("ticket 59", x.forecast(59), 60);
+            lastOfAll();
         });
+    }
+
+    /** The sixtieth ticket, of the sixth kind, begun and put back: its forecast hangs on all of its numbers. */
+    private void lastOfAll() {
+        HelpDesk x = Desks.calm(0);
+        for (int kind = 1; kind < 6; kind++) {
+            x.addKind(10080, 10080, 10 * kind, kind == 5 ? 1 : 0, kind == 5 ? 12 : 0, true);
+        }
+        Desks.report(x, 59);
+        x.report(5, 1, 1, 3);
+        x.pass(7);
+        x.setAgents(0, 0);
+        x.pass(5);
+        s.due("it climbs, having waited", x.forecast(59), 7 + 12 + 50);
+        x.setAgents(0, 1);
+        s.due("it goes on where it was, and then climbs", x.forecast(59), 12 + 43 + 50);
+        x.setPriority(59, 0);
+        s.due("it waits and climbs", x.forecast(59), 12 + 7 + 50);
     }
 
     private void forecastAnswers() {
@@ -122,7 +141,20 @@ final class ForecastSentences extends Group {
             z.setAgents(0, 0);
             Desks.report(z, 60);
             s.due("all that can be", z.breachesAhead(), 120);
+            s.due("of six kinds", ofSixKinds().breachesAhead(), 12);
         });
+    }
+
+    /** Nobody works, and each kind has a ticket that will be late for an answer and for a solution. */
+    private static HelpDesk ofSixKinds() {
+        HelpDesk x = Desks.open(0, 3, 480, 0, 0);
+        x.setAgents(0, 0);
+        x.report(0, 1, 1, 1);
+        for (int kind = 1; kind < 6; kind++) {
+            x.addKind(kind, 3 + kind, 480, 0, 0, true);
+            x.report(kind, 1, 1, 1);
+        }
+        return x;
     }
 
     private void breachesWith() {
@@ -165,6 +197,12 @@ final class ForecastSentences extends Group {
             x.pass(10077);
             Desks.fillHistory(x);
             s.due("a full history, at the last time", x.breachesWith(0, 0), 120);
+            HelpDesk y = ofSixKinds();
+            for (int time = 1; time < 12; time++) {
+                y.pass(1);
+                int late = Math.min(6, time) + Math.max(0, Math.min(6, time - 3));
+                s.due("of six kinds, at " + time, y.breachesWith(0, 0), late);
+            }
         });
         s.of("OUT_OF_RANGE", () -> {
             s.unchanged(new HelpDesk(), "both too small", d -> d.breachesWith(-1, -1), WRONG);

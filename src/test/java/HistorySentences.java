@@ -112,7 +112,37 @@ final class HistorySentences extends Group {
                 s.due("nothing is left of another replay", z.breachesWith(0, 1), 1);
                 s.due("nothing is left of a forecast", z.breachesAhead() + z.breachesWith(0, 1), 1);
             }
+            for (int day = 0; day < 7; day++) {
+                calendarOfBefore(day);
+            }
         });
+    }
+
+    /** A day that is open now was closed in its first half hour, whatever was forecast or replayed before. */
+    private void calendarOfBefore(int day) {
+        HelpDesk x = new HelpDesk();
+        x.addKind(5, 10080, 480, 0, 0, false);
+        x.setAgents(0, 0);
+        x.setDay(day, 540, 1020);
+        x.pass(day * 1440 + 30);
+        x.setDay(day, 0, 1440);
+        x.report(0, 1, 1, 1);
+        x.pass(6);
+        for (int i = 0; i < 3; i++) {
+            s.due("day " + day + ", six open minutes", x.breachesWith(0, 0), 1);
+        }
+        HelpDesk y = new HelpDesk();
+        y.addKind(5, 10080, 480, 0, 0, false);
+        y.report(0, 1, 1, 1);
+        for (int before = 0; before < day; before++) {
+            y.setDay(before, 0, 0);
+        }
+        y.pass(day * 1440 + 30);
+        y.setDay(day, 0, 1440);
+        s.due("day " + day + " ahead", y.forecast(0) != HelpDesk.NONE || y.breachesAhead() == 0, true);
+        for (int i = 0; i < 3; i++) {
+            s.due("day " + day + ", closed until now", y.breachesWith(0, 0), 0);
+        }
     }
 
     private void repeating() {
@@ -138,7 +168,88 @@ final class HistorySentences extends Group {
             s.due("solved a minute earlier", y.breachesWith(0, 0), 0);
             y.report(0, 1, 1, 1);
             s.due("reported at the last time", y.breachesWith(0, 0), 0);
+            hoursInReplays();
+            agentsInReplays();
+            kindsAndPrioritiesInReplays();
+            joinsInReplays();
         });
+    }
+
+    private void hoursInReplays() {
+        HelpDesk x = new HelpDesk();
+        x.addKind(5, 10080, 480, 0, 0, false);
+        x.setDay(0, 600, 603);
+        x.setDay(1, 10, 700);
+        x.report(0, 1, 1, 1);
+        x.pass(1440 + 10 + 2);
+        s.due("five open minutes of two days", x.breachesWith(0, 0), 0);
+        x.pass(1);
+        s.due("six open minutes of two days", x.breachesWith(0, 0), 1);
+        HelpDesk y = new HelpDesk();
+        y.addKind(5, 10080, 480, 0, 0, false);
+        y.setDay(0, 0, 0);
+        y.report(0, 1, 1, 1);
+        y.pass(1440 + 545);
+        s.due("a closed day, five open minutes of the next", y.breachesWith(0, 0), 0);
+        y.pass(1);
+        s.due("a closed day, six open minutes of the next", y.breachesWith(0, 0), 1);
+    }
+
+    private void agentsInReplays() {
+        for (int level = 1; level < 4; level++) {
+            HelpDesk x = Desks.open(5, 10080, 480, 0, 0);
+            Desks.report(x, 10);
+            for (int t = 0; t < 10; t++) {
+                for (int i = 0; i < level; i++) {
+                    x.climb(t);
+                }
+            }
+            for (int number = 0; number < 10; number += 3) {
+                x.save(0);
+                x.setAgents(level, number);
+                x.pass(6);
+                s.due(number + " agents at level " + level, x.breachesWith(0, 0), 10 - number);
+                x.restore(0);
+            }
+        }
+    }
+
+    /** A twin's resolve clock rests while its root is paused, so all hangs on which root a ticket has. */
+    private void joinsInReplays() {
+        for (int ticket = 0; ticket < 4; ticket++) {
+            for (int root = 0; root < 4; root++) {
+                if (ticket != root) {
+                    HelpDesk x = Desks.open(10080, 5, 480, 0, 0);
+                    Desks.report(x, 4);
+                    x.join(ticket, root);
+                    x.pause(root);
+                    x.pass(6);
+                    s.due("two of four are late, " + ticket + " has the root " + root, x.breachesWith(0, 1), 2);
+                    x.part(ticket);
+                    x.pass(6);
+                    s.due("parted, it is late, too", x.breachesWith(0, 1), 3);
+                }
+            }
+        }
+    }
+
+    /** The one agent takes one ticket in time, and which one that is hangs on kinds and priorities. */
+    private void kindsAndPrioritiesInReplays() {
+        for (int hasty = 0; hasty < 2; hasty++) {
+            for (int priority = 0; priority < 4; priority++) {
+                for (int set = 0; set < 4; set++) {
+                    HelpDesk x = Desks.open(10080, 500, 480, 0, 0);
+                    x.addKind(5, 1000, 480, 0, 0, true);
+                    x.report(hasty == 0 ? 1 : 0, 99, 999, 2);
+                    x.report(hasty == 0 ? 0 : 1, 0, 4, priority);
+                    x.setPriority(0, set);
+                    x.pass(6);
+                    boolean inTime = hasty == 0 ? set > priority : priority > set;
+                    s.due("ticket " + hasty + " is in a hurry, priorities " + set + " and " + priority,
+                            x.breachesWith(0, 1), inTime ? 0 : 1);
+                }
+            }
+        }
     }
 
     private void errorsInReplays() {

@@ -83,7 +83,36 @@ final class MinuteSentences extends Group {
             w.setAgents(0, 1);
             w.pass(1);
             s.due("closed again", w.stateOf(0), Desks.QUEUED);
+            int[][] hours = {{0, 0}, {0, 1440}, {0, 1}, {1439, 1440}, {540, 1020}, {0, 1430}, {10, 1440}, {1, 2}};
+            for (int[] today : hours) {
+                for (int[] tomorrow : hours) {
+                    midnight(today, tomorrow);
+                }
+            }
         });
+    }
+
+    /** Minutes pass at once from one day to the next; whether one is open is asked of each of them. */
+    private void midnight(int[] today, int[] tomorrow) {
+        HelpDesk x = new HelpDesk();
+        x.addKind(10080, 10080, 480, 0, 0, true);
+        x.setDay(1, today[0], today[1]);
+        x.setDay(2, tomorrow[0], tomorrow[1]);
+        int from = 2 * 1440 - 100;
+        x.pass(from);
+        x.report(0, 1, 1, 1);
+        x.pass(200);
+        int first = HelpDesk.NONE;
+        int open = 0;
+        for (int minute = from; minute < from + 200; minute++) {
+            if (x.isOpen(minute) == 1) {
+                first = open == 0 ? minute : first;
+                open++;
+            }
+        }
+        String days = today[0] + " to " + today[1] + ", " + tomorrow[0] + " to " + tomorrow[1];
+        s.due("taken in the first open minute: " + days, x.answeredAt(0), first);
+        s.due("worked on in all of them: " + days, x.progress(0), open);
     }
 
     private void answering() {
@@ -139,6 +168,7 @@ final class MinuteSentences extends Group {
             x.pass(10);
             clocks(x, true, new int[] {10, 40, 10, 40, 0, 0, 40}, "taken at once; an answered twin");
             s.due("the parted one is answered now", x.answeredAt(2), 30);
+            everyRoot(true);
         });
     }
 
@@ -159,7 +189,40 @@ final class MinuteSentences extends Group {
             x.solve(0);
             x.pass(10);
             clocks(x, false, new int[] {10, 10, 10, 10, 0, 10, 10, 20}, "resumed, paused, solved, and their twins");
+            everyRoot(false);
         });
+    }
+
+    /** A twin looks at its own root, whichever numbers the two have. */
+    private void everyRoot(boolean response) {
+        for (int pair = 0; pair < 16; pair++) {
+            int ticket = pair / 4;
+            int root = pair % 4;
+            if (ticket == root) {
+                continue;
+            }
+            String twin = ", " + ticket + " is a twin of " + root;
+            HelpDesk x = Desks.calm(4);
+            x.setAgents(0, 0);
+            x.join(ticket, root);
+            x.pass(10);
+            clocks(x, response, ofPair(ticket, root, 10, 10), "queued" + twin);
+            x.pause(root);
+            x.pass(10);
+            clocks(x, response, ofPair(ticket, root, response ? 20 : 10, 20), "paused" + twin);
+            x.resume(root);
+            x.setPriority(root, 3);
+            x.setAgents(0, 1);
+            x.pass(10);
+            clocks(x, response, ofPair(ticket, root, 20, 30), "in work" + twin);
+        }
+    }
+
+    private static int[] ofPair(int ticket, int root, int pair, int others) {
+        int[] due = {others, others, others, others};
+        due[ticket] = pair;
+        due[root] = pair;
+        return due;
     }
 
     private void clocks(HelpDesk x, boolean response, int[] due, String what) {
@@ -245,6 +308,7 @@ final class MinuteSentences extends Group {
                 v.pass(300);
                 event(v, 1, target + 1, 8, 0);
             }
+            clocksApart();
             HelpDesk z = Desks.open(10080, 10079, 480, 0, 0);
             z.setAgents(0, 0);
             z.report(0, 1, 1, 1);
@@ -254,6 +318,37 @@ final class MinuteSentences extends Group {
             s.due("in the week's last minute", z.resolveBreaches(0), 1);
             s.due("a target of a week", z.responseBreaches(0), 0);
         });
+    }
+
+    /** Many minutes pass at once, and one of the two clocks has been running without the other. */
+    private void clocksApart() {
+        HelpDesk x = Desks.open(5, 10080, 480, 0, 0);
+        Desks.report(x, 2);
+        x.pause(0);
+        x.join(1, 0);
+        x.pass(100);
+        s.due("a paused ticket and its twin", x.logSize(), 6);
+        event(x, 4, 6, 8, 0);
+        event(x, 5, 6, 8, 1);
+        HelpDesk y = Desks.open(5, 10, 480, 0, 0);
+        y.setAgents(0, 0);
+        y.report(0, 1, 1, 1);
+        y.pause(0);
+        y.pass(3);
+        y.resume(0);
+        y.pass(100);
+        s.due("resumed in time", y.logSize(), 5);
+        event(y, 3, 6, 8, 0);
+        event(y, 4, 3 + 11, 9, 0);
+        HelpDesk z = Desks.open(20, 10, 480, 0, 0);
+        z.report(0, 1, 1, 1);
+        z.pass(5);
+        z.pause(0);
+        z.pass(50);
+        z.resume(0);
+        z.pass(100);
+        s.due("answered, paused and resumed", z.logSize(), 6);
+        event(z, 5, 5 + 50 + 6, 9, 0);
     }
 
     private void working() {
@@ -348,6 +443,11 @@ final class MinuteSentences extends Group {
             event(v, 4, 77, 4, 0);
             event(v, 5, 107, 4, 0);
             event(v, 6, 107, 1, 0);
+            for (int climb = 1; climb < 6; climb++) {
+                for (int kindLevel = 0; kindLevel < 4; kindLevel++) {
+                    climbingAtOnce(climb, kindLevel);
+                }
+            }
         });
         s.of("A ticket that climbs gets the next higher level", () -> {
             HelpDesk x = Desks.open(10080, 10080, 480, 3, 20);
@@ -368,6 +468,30 @@ final class MinuteSentences extends Group {
             x.pass(1);
             s.due("to the top", x.levelOf(0), 3);
         });
+    }
+
+    /** Many minutes pass at once, and a ticket climbs in three of them, between its two breaches. */
+    private void climbingAtOnce(int climb, int kindLevel) {
+        HelpDesk x = Desks.open(climb - 1, 3 * climb, 480, kindLevel, climb);
+        for (int level = 0; level < 4; level++) {
+            x.setAgents(level, 0);
+        }
+        x.report(0, 1, 1, 1);
+        x.pass(100);
+        s.due("a report, two breaches and three climbs", x.logSize(), 6);
+        event(x, 1, climb, 8, 0);
+        event(x, 2, climb, 4, 0);
+        event(x, 3, 2 * climb, 4, 0);
+        event(x, 4, 3 * climb, 4, 0);
+        event(x, 5, 3 * climb + 1, 9, 0);
+        HelpDesk y = Desks.open(climb, 3 * climb - 1, 480, kindLevel, climb);
+        for (int level = 0; level < 4; level++) {
+            y.setAgents(level, 0);
+        }
+        y.report(0, 1, 1, 1);
+        y.pass(100);
+        event(y, 1, climb, 4, 0);
+        event(y, 2, climb + 1, 8, 0);
     }
 
     private void times() {

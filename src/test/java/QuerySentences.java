@@ -138,6 +138,7 @@ final class QuerySentences extends Group {
             s.due("reopened", y.suggestRoot(6), 3);
             y.solve(3);
             s.due("neither a solved one nor a twin", y.suggestRoot(6), HelpDesk.NONE);
+            kindsAndSubjects();
         });
         s.of("- `ticket`: the number of a ticket, which may have any state", () -> {
             HelpDesk x = Desks.ofEveryState();
@@ -148,6 +149,26 @@ final class QuerySentences extends Group {
             s.due("ticket 0", y.suggestRoot(0), HelpDesk.NONE);
             s.due("ticket 59", y.suggestRoot(59), 0);
         });
+    }
+
+    /** Three kinds and four subjects, in all combinations but the second one of each. */
+    private void kindsAndSubjects() {
+        HelpDesk x = Desks.calm(0);
+        x.addKind(10080, 10080, 480, 0, 0, true);
+        x.addKind(10080, 10080, 480, 0, 0, true);
+        int[] subjects = {0, 1, 998, 999};
+        for (int t = 0; t < 60; t++) {
+            x.report(t % 3, t, subjects[t / 3 * 7 % 4], 0);
+        }
+        for (int t = 0; t < 60; t++) {
+            int due = HelpDesk.NONE;
+            for (int lower = t - 1; lower >= 0; lower--) {
+                if (lower % 3 == t % 3 && lower / 3 * 7 % 4 == t / 3 * 7 % 4) {
+                    due = lower;
+                }
+            }
+            s.due("ticket " + t, x.suggestRoot(t), due);
+        }
     }
 
     private void suggestRootAnswers() {
@@ -287,6 +308,18 @@ final class QuerySentences extends Group {
             }
             for (int rank = 1; rank <= 5; rank++) {
                 s.due("the lowest number first", y.resolvePercentile(20 * rank), rank);
+            }
+            HelpDesk z = Desks.calm(9);
+            z.pause(0);
+            z.pass(50);
+            z.pause(8);
+            z.pass(50);
+            z.solve(4);
+            z.pass(50);
+            z.solve(6);
+            z.pass(50);
+            for (int p = 1; p <= 100; p++) {
+                s.due("others are below, between and above, " + p, z.resolvePercentile(p), p <= 50 ? 100 : 150);
             }
         });
         s.of("Let c be their number and r = p * c / 100, rounded up", () -> {

@@ -1,3 +1,5 @@
+import java.util.function.ObjIntConsumer;
+
 /** The promises 59 and 60: saved states. */
 final class SavedSentences extends Group {
     SavedSentences(Sentences sentences) {
@@ -21,7 +23,8 @@ final class SavedSentences extends Group {
             s.due("all is back", Desks.picture(x).equals(before), true);
             s.due("the kinds, too", x.report(1, 1, 1, 1), HelpDesk.NO_SUCH_KIND);
             newTicket();
-            twoStates();
+            twoStates(SavedSentences::fill);
+            twoStates(SavedSentences::fillUp);
             priorities();
             HelpDesk full = Desks.withEvents(600);
             Desks.fillHistory(full);
@@ -113,17 +116,17 @@ final class SavedSentences extends Group {
     }
 
     /** Two states that have as many of all things, but other ones, on the same object and on objects of their own. */
-    private void twoStates() {
+    private void twoStates(ObjIntConsumer<HelpDesk> filling) {
         HelpDesk x = new HelpDesk();
         x.save(1);
-        fill(x, 0);
+        filling.accept(x, 0);
         x.save(0);
         x.restore(1);
-        fill(x, 1);
+        filling.accept(x, 1);
         x.save(1);
         for (int slot = 0; slot < 2; slot++) {
             HelpDesk alone = new HelpDesk();
-            fill(alone, slot);
+            filling.accept(alone, slot);
             x.restore(slot);
             s.due("slot " + slot, Desks.picture(x).equals(Desks.picture(alone)), true);
             x.pass(2000);
@@ -170,6 +173,33 @@ final class SavedSentences extends Group {
         }
         x.pass(first ? 3 : 15);
         x.solve(first ? 4 : 5);
+    }
+
+    /** As many kinds and tickets as there can be, of which the last ones, too, are others in each variant. */
+    private static void fillUp(HelpDesk x, int variant) {
+        boolean first = variant == 0;
+        for (int kind = 0; kind < 6; kind++) {
+            x.addKind(5 + kind + 3 * variant, 30 + kind + 9 * variant, 7 + kind + 2 * variant, (kind + variant) % 3,
+                    kind % 2 == variant ? 0 : 40 + kind, kind % 2 == variant);
+        }
+        for (int day = 0; day < 7; day++) {
+            x.setDay(day, 10 * day + variant, 1000 + day - variant);
+        }
+        for (int level = 0; level < 4; level++) {
+            x.setAgents(level, 9 - level - variant);
+        }
+        for (int t = 0; t < 59; t++) {
+            x.report((t + variant) % 6, 99 - t - variant, 7 + t % 2, (t + variant) % 4);
+        }
+        x.pass(10 + variant);
+        x.report(first ? 5 : 4, first ? 30 : 33, first ? 7 : 8, 3 - variant);
+        x.pass(first ? 2 : 3);
+        if (first) {
+            x.pause(59);
+        } else {
+            x.join(59, 58);
+        }
+        x.pass(4 + variant);
     }
 
     private static void changeAll(HelpDesk x) {

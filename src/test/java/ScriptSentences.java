@@ -1,3 +1,5 @@
+import java.util.function.ToIntFunction;
+
 /** The sentences on scripts, and the promises 53 to 58. */
 final class ScriptSentences extends Group {
     ScriptSentences(Sentences sentences) {
@@ -184,7 +186,64 @@ final class ScriptSentences extends Group {
             s.due("solve", y.logType(y.logSize() - 2) * 10 + y.logTicket(y.logSize() - 2), 51);
             s.due("reopen", y.stateOf(1), Desks.QUEUED);
             s.due("all changes are recorded", y.historyLength(), 4 + 8);
+            sameAsCalls();
         });
+    }
+
+    /** Each statement does and answers what its method does with the same numbers, of which each is in range or not. */
+    private void sameAsCalls() {
+        int[] few = {0, 1, 3, 4, 7};
+        for (int a : new int[] {0, 1, 2, 3, 4, 5, 6, 7, 99999}) {
+            same("pause " + a, x -> x.pause(a));
+            same("resume " + a, x -> x.resume(a));
+            same("climb " + a, x -> x.climb(a));
+            same("solve " + a, x -> x.solve(a));
+            same("reopen " + a, x -> x.reopen(a));
+            same("part " + a, x -> x.part(a));
+            int minutes = Math.min(1500 * a, 99999);
+            same("pass " + minutes, x -> x.pass(minutes));
+            for (int b : few) {
+                same("agents " + a + " " + 2 * b, x -> x.setAgents(a, 2 * b));
+                same("join " + a + " " + b, x -> x.join(a, b));
+                same("priority " + a + " " + b, x -> x.setPriority(a, b));
+                for (int c : few) {
+                    same("day " + a + " " + 400 * b + " " + 401 * c, x -> x.setDay(a, 400 * b, 401 * c));
+                }
+            }
+        }
+        for (int i = 0; i < 16; i++) {
+            int kind = i % 4 == 0 ? 1 : 0;
+            int customer = 25 * (i % 5);
+            int subject = 1000 - i % 7;
+            int priority = i % 5;
+            same("report " + kind + " " + customer + " " + subject + " " + priority,
+                    x -> x.report(kind, customer, subject, priority));
+        }
+        for (int odd = 0; odd < 6; odd++) {
+            int response = odd == 1 ? 10081 : 11;
+            int resolve = odd == 2 ? 10081 : 22;
+            int effort = odd == 3 ? 481 : 33;
+            int level = odd == 4 ? 4 : 2;
+            int climb = odd == 5 ? 10081 : 44;
+            String kind = "kind " + response + " " + resolve + " " + effort + " " + level + " " + climb;
+            same(kind, x -> x.addKind(response, resolve, effort, level, climb, false));
+            same(kind + " always", x -> x.addKind(response, resolve, effort, level, climb, true));
+        }
+    }
+
+    private void same(String statement, ToIntFunction<HelpDesk> call) {
+        HelpDesk x = Desks.ofEveryState();
+        HelpDesk y = Desks.ofEveryState();
+        int answer = call.applyAsInt(y);
+        s.due(statement, Desks.run(x, statement + ";"), answer < HelpDesk.NONE ? 0 : 1);
+        s.due("failure of " + statement, x.scriptFailure(), answer < HelpDesk.NONE ? answer : 0);
+        x.runScript();
+        for (HelpDesk d : new HelpDesk[] {x, y}) {
+            d.report(1, 1, 1, 1);
+            d.report(1, 1, 1, 1);
+            d.pass(100);
+        }
+        s.due(statement + " does what the call does", Desks.picture(x).equals(Desks.picture(y)), true);
     }
 
     private void errors() {

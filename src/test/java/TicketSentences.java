@@ -1,3 +1,5 @@
+import java.util.Random;
+
 /** The promises 20 to 34: time, and what is told of a ticket. */
 final class TicketSentences extends Group {
     TicketSentences(Sentences sentences) {
@@ -22,6 +24,55 @@ final class TicketSentences extends Group {
         resolveClock();
     }
 
+    /** The same desk twice, of short targets and efforts and of all states; its minutes pass at once or one by one. */
+    private void atOnceOrOneByOne(int variant) {
+        HelpDesk x = busy(new Random(variant));
+        HelpDesk y = busy(new Random(variant));
+        int minutes = 50 + 3 * variant;
+        int solved = 0;
+        for (int i = 0; i < minutes; i++) {
+            solved += y.pass(1);
+        }
+        s.due("solved, variant " + variant, x.pass(minutes), solved);
+        s.due("at once or one by one, variant " + variant, Desks.picture(x).equals(Desks.picture(y)), true);
+    }
+
+    private static HelpDesk busy(Random random) {
+        HelpDesk x = new HelpDesk();
+        for (int kind = 0; kind < 4; kind++) {
+            x.addKind(random.nextInt(60), random.nextInt(90), 1 + random.nextInt(60), random.nextInt(4),
+                    random.nextInt(3) * random.nextInt(50), random.nextBoolean());
+        }
+        int opening = random.nextInt(200);
+        x.setDay(0, opening, opening + 1 + random.nextInt(200));
+        x.setDay(1, 0, 1 + random.nextInt(40));
+        x.setDay(random.nextInt(2), 0, random.nextInt(2) * 1440);
+        x.pass(1 + random.nextInt(1430));
+        for (int level = 0; level < 4; level++) {
+            x.setAgents(level, random.nextInt(3));
+        }
+        for (int i = 0; i < 30; i++) {
+            x.report(random.nextInt(4), 1, 1, random.nextInt(4));
+            change(x, random.nextInt(7), random.nextInt(x.ticketCount()), random.nextInt(x.ticketCount()));
+            if (random.nextInt(4) == 0) {
+                x.pass(1 + random.nextInt(9));
+            }
+        }
+        return x;
+    }
+
+    private static void change(HelpDesk x, int which, int ticket, int other) {
+        switch (which) {
+            case 0: x.pause(ticket); break;
+            case 1: x.resume(ticket); break;
+            case 2: x.climb(ticket); break;
+            case 3: x.solve(ticket); break;
+            case 4: x.reopen(ticket); break;
+            case 5: x.join(ticket, other); break;
+            default: x.part(ticket);
+        }
+    }
+
     private void pass() {
         s.under("Promise 20: pass");
         s.of("Lets minutes pass", () -> {
@@ -30,6 +81,9 @@ final class TicketSentences extends Group {
             s.due("now", x.now(), 7);
             s.due("work is done", x.progress(0), 7);
             s.due("no change is recorded", x.historyLength(), 2);
+            for (int variant = 0; variant < 150; variant++) {
+                atOnceOrOneByOne(variant);
+            }
         });
         s.of("- `minutes`: how many, at least 1; the time then must be at most 10080", () -> {
             HelpDesk x = Desks.calm(1);

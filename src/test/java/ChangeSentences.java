@@ -92,6 +92,7 @@ final class ChangeSentences extends Group {
             s.due("at the first time", x.reportedAt(0), 0);
             s.due("at the last time", x.reportedAt(1), 10080);
             lastEvent(x, 0, 1, 0);
+            alters("report", (d, kind) -> d.report(kind, 3, 3, 3), 1);
         });
         s.of("- `kind`: the number of a kind", () -> {
             HelpDesk x = new HelpDesk();
@@ -168,6 +169,9 @@ final class ChangeSentences extends Group {
             s.due("in work", x.stateOf(1), Desks.PAUSED);
             s.due("its agent is free", x.busyAgents(0), 0);
             lastEvent(x, 2, 1, 0);
+            for (int t : new int[] {0, 1, 6, 7}) {
+                alters("pause " + t, HelpDesk::pause, t, new int[][] {{t, Desks.STATE, Desks.PAUSED}});
+            }
         });
         s.of("Its progress stays", () -> {
             HelpDesk x = Desks.ofEveryState();
@@ -198,6 +202,7 @@ final class ChangeSentences extends Group {
     private void resume() {
         s.under("Promise 13: resume");
         s.of("Makes a ticket that is PAUSED QUEUED", () -> {
+            alters("resume", HelpDesk::resume, 2, new int[][] {{2, Desks.STATE, Desks.QUEUED}});
             HelpDesk x = Desks.calm(1);
             x.pass(3);
             x.pause(0);
@@ -224,6 +229,10 @@ final class ChangeSentences extends Group {
     private void climb() {
         s.under("Promise 14: climb");
         s.of("Lets a ticket climb that is QUEUED or IN WORK and whose level is below 3", () -> {
+            for (int t : new int[] {0, 1, 7}) {
+                alters("climb " + t, HelpDesk::climb, t, new int[][] {{t, Desks.STATE, Desks.QUEUED},
+                    {t, Desks.LEVEL, 1}, {t, Desks.PROGRESS, 0}});
+            }
             HelpDesk x = Desks.ofEveryState();
             x.climb(1);
             s.due("in work before", x.stateOf(1), Desks.QUEUED);
@@ -260,6 +269,13 @@ final class ChangeSentences extends Group {
     private void solve() {
         s.under("Promise 15: solve");
         s.of("Makes a ticket that is QUEUED, IN WORK or PAUSED, and its twins, SOLVED", () -> {
+            int now = Desks.mixed().now();
+            for (int t : new int[] {1, 2, 6, 7}) {
+                alters("solve " + t, HelpDesk::solve, t, new int[][] {{t, Desks.STATE, Desks.SOLVED},
+                    {t, Desks.SOLVED_AT, now}});
+            }
+            alters("solve 0", HelpDesk::solve, 0, new int[][] {{0, Desks.STATE, Desks.SOLVED},
+                {0, Desks.SOLVED_AT, now}, {4, Desks.STATE, Desks.SOLVED}, {4, Desks.SOLVED_AT, now}});
             HelpDesk x = Desks.ofEveryState();
             x.join(1, 2);
             x.solve(2);
@@ -291,6 +307,9 @@ final class ChangeSentences extends Group {
     private void reopen() {
         s.under("Promise 16: reopen");
         s.of("Makes a SOLVED ticket that has no root QUEUED again", () -> {
+            alters("reopen", HelpDesk::reopen, 3, new int[][] {{3, Desks.STATE, Desks.QUEUED},
+                {3, Desks.PROGRESS, 0}, {3, Desks.SOLVED_AT, HelpDesk.NONE}, {5, Desks.STATE, Desks.TWIN},
+                {5, Desks.SOLVED_AT, HelpDesk.NONE}});
             HelpDesk x = Desks.ofEveryState();
             x.reopen(3);
             s.due("state", x.stateOf(3), Desks.QUEUED);
@@ -385,6 +404,12 @@ final class ChangeSentences extends Group {
     private void join() {
         s.under("Promise 17: join");
         s.of("Joins a ticket to a root: it becomes a TWIN", () -> {
+            for (int t : new int[] {1, 2, 6}) {
+                alters("join " + t + " to 7", (d, ticket) -> d.join(ticket, 7), t, new int[][] {
+                    {t, Desks.STATE, Desks.TWIN}, {t, Desks.ROOT, 7}, {7, Desks.TWINS, 1 << t}});
+            }
+            alters("join 0 to 1", (d, ticket) -> d.join(ticket, 1), 0, new int[][] {{0, Desks.STATE, Desks.TWIN},
+                {0, Desks.ROOT, 1}, {0, Desks.TWINS, 0}, {4, Desks.ROOT, 1}, {1, Desks.TWINS, 0b10001}});
             HelpDesk x = Desks.ofEveryState();
             x.join(1, 2);
             s.due("state", x.stateOf(1), Desks.TWIN);
@@ -446,6 +471,8 @@ final class ChangeSentences extends Group {
     private void part() {
         s.under("Promise 18: part");
         s.of("Makes a TWIN an own ticket again: it becomes QUEUED at its level; its progress stays", () -> {
+            alters("part", HelpDesk::part, 4, new int[][] {{4, Desks.STATE, Desks.QUEUED},
+                {4, Desks.ROOT, HelpDesk.NONE}, {0, Desks.TWINS, 0}});
             HelpDesk x = Desks.calm(2);
             x.climb(1);
             x.climb(1);
@@ -491,6 +518,10 @@ final class ChangeSentences extends Group {
     private void setPriority() {
         s.under("Promise 19: setPriority");
         s.of("Sets the priority of a ticket that is not SOLVED", () -> {
+            for (int t : new int[] {0, 1, 2, 4, 6, 7}) {
+                alters("setPriority " + t, (d, ticket) -> d.setPriority(ticket, 3), t,
+                        new int[][] {{t, Desks.PRIORITY, 3}});
+            }
             HelpDesk x = Desks.ofEveryState();
             int events = x.logSize();
             for (int t : new int[] {0, 1, 2, 4, 6}) {

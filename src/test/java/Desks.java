@@ -49,6 +49,50 @@ final class Desks {
         return x;
     }
 
+    /**
+     * Eight tickets of two kinds and four priorities. At time 9 0 and 1 are IN WORK, 2 is PAUSED, 3 SOLVED, 4 a TWIN
+     * of 0, 5 SOLVED with its root 3, 6 QUEUED at level 3 and 7 QUEUED at level 0. All but 6 have made progress.
+     */
+    static HelpDesk mixed() {
+        HelpDesk x = open(100, 200, 50, 1, 300);
+        x.addKind(150, 250, 60, 2, 0, true);
+        int[] priorities = {0, 1, 2, 3, 1, 0, 2, 1};
+        for (int t = 0; t < priorities.length; t++) {
+            x.report(t % 2, t, t, priorities[t]);
+        }
+        x.setAgents(0, 9);
+        x.pass(3);
+        x.climb(4);
+        x.climb(5);
+        x.climb(5);
+        x.pass(2);
+        x.join(4, 0);
+        x.join(5, 3);
+        x.pause(2);
+        x.setAgents(3, 0);
+        for (int level = 1; level < 4; level++) {
+            x.climb(6);
+        }
+        x.pass(4);
+        x.solve(3);
+        x.setAgents(0, 2);
+        return x;
+    }
+
+    // The places of what a ticket tells among its fields.
+    static final int STATE = 0;
+    static final int LEVEL = 1;
+    static final int PRIORITY = 2;
+    static final int PROGRESS = 3;
+    static final int ROOT = 4;
+    static final int TWINS = 5;
+    static final int SOLVED_AT = 6;
+
+    static long[] fields(HelpDesk x, int t) {
+        return new long[] {x.stateOf(t), x.levelOf(t), x.priorityOf(t), x.progress(t), x.rootOf(t), x.twins(t),
+            x.solvedAt(t), x.answeredAt(t), x.reportedAt(t), x.responseClock(t), x.resolveClock(t), x.kindOf(t)};
+    }
+
     /** Fills the history up with changes that change nothing. */
     static void fillHistory(HelpDesk x) {
         for (int i = x.historyLength(); i < 200; i++) {

@@ -13,6 +13,25 @@ abstract class Group {
 
     abstract void test();
 
+    /** What the call alters of the tickets of Desks.mixed: these fields, each with its new number, and no other. */
+    final void alters(String what, Call call, int number, int[]... due) {
+        HelpDesk x = Desks.mixed();
+        long[][] want = new long[x.ticketCount()][];
+        for (int t = 0; t < want.length; t++) {
+            want[t] = Desks.fields(x, t);
+        }
+        for (int[] d : due) {
+            want[d[0]][d[1]] = d[2];
+        }
+        s.due(what + " is no error", call.of(x, number) >= 0, true);
+        for (int t = 0; t < want.length; t++) {
+            long[] got = Desks.fields(x, t);
+            for (int field = 0; field < got.length; field++) {
+                s.due(what + ", field " + field + " of ticket " + t, got[field], want[t][field]);
+            }
+        }
+    }
+
     /** The call is refused for all numbers that no ticket has, and changes nothing. */
     final void noSuchTicket(Call call) {
         s.of("NO_SUCH_TICKET", () -> {

@@ -141,6 +141,7 @@ final class MinuteSentences extends Group {
             event(x, 4, 6, 9, 0);
             event(x, 5, 6, 8, 2);
             event(x, 6, 6, 9, 2);
+            ownKinds();
         });
         s.of("Its response clock runs if", () -> {
             HelpDesk x = Desks.calm(7);
@@ -191,6 +192,29 @@ final class MinuteSentences extends Group {
             clocks(x, false, new int[] {10, 10, 10, 10, 0, 10, 10, 20}, "resumed, paused, solved, and their twins");
             everyRoot(false);
         });
+    }
+
+    /** For a twin, too, it is its own kind that tells whether the closed minutes count, and which targets it has. */
+    private void ownKinds() {
+        HelpDesk x = new HelpDesk();
+        x.addKind(5, 10, 480, 0, 0, true);
+        x.addKind(30, 60, 480, 0, 0, false);
+        for (int t = 0; t < 4; t++) {
+            x.report(t % 2, 1, 1, 1);
+        }
+        x.join(0, 1);
+        x.join(3, 2);
+        x.pass(100);
+        for (int t = 0; t < 4; t++) {
+            s.due("response clock of " + t, x.responseClock(t), t % 2 == 0 ? 100 : 0);
+            s.due("resolve clock of " + t, x.resolveClock(t), t % 2 == 0 ? 100 : 0);
+        }
+        int[][] due = {{6, 8, 0}, {6, 8, 2}, {11, 9, 0}, {11, 9, 2}};
+        for (int i = 0; i < due.length; i++) {
+            event(x, 6 + i, due[i][0], due[i][1], due[i][2]);
+            s.due("its own target", x.logDetail(6 + i), due[i][0] - 1);
+        }
+        s.due("no other breach", x.logSize(), 10);
     }
 
     /** A twin looks at its own root, whichever numbers the two have. */
@@ -251,6 +275,7 @@ final class MinuteSentences extends Group {
             s.due("a minute too few", x.levelOf(1) + x.levelOf(2) + x.levelOf(3), 0);
             x.pass(1);
             s.due("a hundred queued minutes", x.levelOf(1) + x.levelOf(2) + x.levelOf(3), 3);
+            restingLevelClocks();
         });
         s.of("A clock that runs grows by 1", () -> {
             HelpDesk x = Desks.open(10080, 10080, 480, 0, 0);
@@ -264,6 +289,62 @@ final class MinuteSentences extends Group {
             x.pass(10075);
             s.due("a week", x.responseClock(0) + x.resolveClock(0), 2 * 10080);
         });
+    }
+
+    /** After 30 minutes in the queue the level clock rests, and 70 minutes are left when the ticket is back. */
+    private void restingLevelClocks() {
+        for (int way = 0; way < 5; way++) {
+            HelpDesk x = Desks.open(10080, 10080, 480, 0, 100);
+            x.setAgents(0, 0);
+            Desks.report(x, 2);
+            x.pass(30);
+            x.pause(0);
+            away(x, way);
+            x.pass(20);
+            back(x, way);
+            x.pass(69);
+            s.due("a minute too few, way " + way, x.levelOf(1), 0);
+            x.pass(1);
+            s.due("thirty and seventy minutes, way " + way, x.levelOf(1), 1);
+            s.due("a paused one", x.levelOf(0), 0);
+        }
+    }
+
+    private static void away(HelpDesk x, int way) {
+        switch (way) {
+            case 0:
+                x.setAgents(0, 1);
+                break;
+            case 1:
+                x.pause(1);
+                break;
+            default:
+                x.join(1, 0);
+        }
+    }
+
+    private static void back(HelpDesk x, int way) {
+        switch (way) {
+            case 0:
+                x.setAgents(0, 0);
+                break;
+            case 1:
+                x.resume(1);
+                break;
+            case 2:
+                x.part(1);
+                break;
+            case 3:
+                x.solve(0);
+                x.reopen(0);
+                x.part(1);
+                x.pause(0);
+                break;
+            default:
+                x.resume(0);
+                x.part(1);
+                x.pause(0);
+        }
     }
 
     private void breaches() {

@@ -284,6 +284,15 @@ final class PlainSentences extends Group {
             x.solve(3);
             x.pause(1);
             s.due("the next number", x.nextTicket(0), 2);
+            HelpDesk y = Desks.open(10080, 7, 480, 0, 0);
+            y.addKind(10080, 5, 480, 0, 0, true);
+            y.setAgents(0, 0);
+            y.report(0, 1, 1, 1);
+            y.report(1, 1, 1, 1);
+            y.pass(100);
+            s.due("the lower of two differences below 0", y.nextTicket(0), 1);
+            y.report(1, 1, 1, 1);
+            s.due("of two differences below 0 and one above", y.nextTicket(0), 1);
         });
     }
 

@@ -169,7 +169,7 @@ final class ChangeSentences extends Group {
             s.due("in work", x.stateOf(1), Desks.PAUSED);
             s.due("its agent is free", x.busyAgents(0), 0);
             lastEvent(x, 2, 1, 0);
-            for (int t : new int[] {0, 1, 6, 7}) {
+            for (int t : new int[] {0, 1, 6, 7, 9}) {
                 alters("pause " + t, HelpDesk::pause, t, new int[][] {{t, Desks.STATE, Desks.PAUSED}});
             }
         });
@@ -229,7 +229,7 @@ final class ChangeSentences extends Group {
     private void climb() {
         s.under("Promise 14: climb");
         s.of("Lets a ticket climb that is QUEUED or IN WORK and whose level is below 3", () -> {
-            for (int t : new int[] {0, 1, 7}) {
+            for (int t : new int[] {0, 1, 7, 9}) {
                 alters("climb " + t, HelpDesk::climb, t, new int[][] {{t, Desks.STATE, Desks.QUEUED},
                     {t, Desks.LEVEL, 1}, {t, Desks.PROGRESS, 0}});
             }
@@ -270,12 +270,13 @@ final class ChangeSentences extends Group {
         s.under("Promise 15: solve");
         s.of("Makes a ticket that is QUEUED, IN WORK or PAUSED, and its twins, SOLVED", () -> {
             int now = Desks.mixed().now();
-            for (int t : new int[] {1, 2, 6, 7}) {
+            for (int t : new int[] {1, 2, 6, 7, 9}) {
                 alters("solve " + t, HelpDesk::solve, t, new int[][] {{t, Desks.STATE, Desks.SOLVED},
                     {t, Desks.SOLVED_AT, now}});
             }
             alters("solve 0", HelpDesk::solve, 0, new int[][] {{0, Desks.STATE, Desks.SOLVED},
-                {0, Desks.SOLVED_AT, now}, {4, Desks.STATE, Desks.SOLVED}, {4, Desks.SOLVED_AT, now}});
+                {0, Desks.SOLVED_AT, now}, {4, Desks.STATE, Desks.SOLVED}, {4, Desks.SOLVED_AT, now},
+                {8, Desks.STATE, Desks.SOLVED}, {8, Desks.SOLVED_AT, now}});
             HelpDesk x = Desks.ofEveryState();
             x.join(1, 2);
             x.solve(2);
@@ -404,12 +405,22 @@ final class ChangeSentences extends Group {
     private void join() {
         s.under("Promise 17: join");
         s.of("Joins a ticket to a root: it becomes a TWIN", () -> {
-            for (int t : new int[] {1, 2, 6}) {
-                alters("join " + t + " to 7", (d, ticket) -> d.join(ticket, 7), t, new int[][] {
-                    {t, Desks.STATE, Desks.TWIN}, {t, Desks.ROOT, 7}, {7, Desks.TWINS, 1 << t}});
+            int ofZero = 1 << 4 | 1 << 8;
+            int[] alone = {0, 1, 2, 6, 7, 9};
+            for (int root : alone) {
+                for (int t : alone) {
+                    if (t != root && t != 0) {
+                        alters("join " + t + " to " + root, (d, ticket) -> d.join(ticket, root), t, new int[][] {
+                            {t, Desks.STATE, Desks.TWIN}, {t, Desks.ROOT, root},
+                            {root, Desks.TWINS, 1 << t | (root == 0 ? ofZero : 0)}});
+                    }
+                }
+                if (root != 0) {
+                    alters("join 0 to " + root, (d, ticket) -> d.join(ticket, root), 0, new int[][] {
+                        {0, Desks.STATE, Desks.TWIN}, {0, Desks.ROOT, root}, {0, Desks.TWINS, 0},
+                        {4, Desks.ROOT, root}, {8, Desks.ROOT, root}, {root, Desks.TWINS, 1 | ofZero}});
+                }
             }
-            alters("join 0 to 1", (d, ticket) -> d.join(ticket, 1), 0, new int[][] {{0, Desks.STATE, Desks.TWIN},
-                {0, Desks.ROOT, 1}, {0, Desks.TWINS, 0}, {4, Desks.ROOT, 1}, {1, Desks.TWINS, 0b10001}});
             HelpDesk x = Desks.ofEveryState();
             x.join(1, 2);
             s.due("state", x.stateOf(1), Desks.TWIN);
@@ -471,8 +482,10 @@ final class ChangeSentences extends Group {
     private void part() {
         s.under("Promise 18: part");
         s.of("Makes a TWIN an own ticket again: it becomes QUEUED at its level; its progress stays", () -> {
-            alters("part", HelpDesk::part, 4, new int[][] {{4, Desks.STATE, Desks.QUEUED},
-                {4, Desks.ROOT, HelpDesk.NONE}, {0, Desks.TWINS, 0}});
+            for (int t : new int[] {4, 8}) {
+                alters("part " + t, HelpDesk::part, t, new int[][] {{t, Desks.STATE, Desks.QUEUED},
+                    {t, Desks.ROOT, HelpDesk.NONE}, {0, Desks.TWINS, 1 << 12 - t}});
+            }
             HelpDesk x = Desks.calm(2);
             x.climb(1);
             x.climb(1);
@@ -518,7 +531,7 @@ final class ChangeSentences extends Group {
     private void setPriority() {
         s.under("Promise 19: setPriority");
         s.of("Sets the priority of a ticket that is not SOLVED", () -> {
-            for (int t : new int[] {0, 1, 2, 4, 6, 7}) {
+            for (int t : new int[] {0, 1, 2, 4, 6, 7, 8, 9}) {
                 alters("setPriority " + t, (d, ticket) -> d.setPriority(ticket, 3), t,
                         new int[][] {{t, Desks.PRIORITY, 3}});
             }

@@ -50,8 +50,9 @@ final class Desks {
     }
 
     /**
-     * Eight tickets of two kinds and four priorities. At time 9 0 and 1 are IN WORK, 2 is PAUSED, 3 SOLVED, 4 a TWIN
-     * of 0, 5 SOLVED with its root 3, 6 QUEUED at level 3 and 7 QUEUED at level 0. All but 6 have made progress.
+     * Ten tickets of two kinds and four priorities. At time 9 0 and 1 are IN WORK, 2 is PAUSED, 3 SOLVED, 4 a TWIN
+     * of 0, 5 SOLVED with its root 3, 6 QUEUED at level 3 and 7 QUEUED at level 0; 8 is a TWIN of 0 and 9 QUEUED, and
+     * these two have not been answered.
      */
     static HelpDesk mixed() {
         HelpDesk x = open(100, 200, 50, 1, 300);
@@ -76,6 +77,9 @@ final class Desks {
         x.pass(4);
         x.solve(3);
         x.setAgents(0, 2);
+        x.report(0, 8, 8, 0);
+        x.report(1, 9, 9, 3);
+        x.join(8, 0);
         return x;
     }
 

@@ -112,6 +112,18 @@ final class HistorySentences extends Group {
                 s.due("nothing is left of another replay", z.breachesWith(0, 1), 1);
                 s.due("nothing is left of a forecast", z.breachesAhead() + z.breachesWith(0, 1), 1);
             }
+            HelpDesk w = Desks.open(30, 15, 10, 0, 0);
+            w.pass(1);
+            Desks.report(w, 3);
+            w.pass(15);
+            w.join(2, 1);
+            w.pass(35);
+            for (int i = 0; i < 3; i++) {
+                s.due("solved with its root", w.forecast(2), 21);
+                s.due("no root of a forecast is left", w.breachesWith(0, 2), 1);
+                s.due("no answer of a forecast is left", w.breachesWith(0, 0), 6);
+                s.due("as it was", w.breachesWith(0, 1), 2);
+            }
             for (int day = 0; day < 7; day++) {
                 calendarOfBefore(day);
             }

@@ -177,6 +177,21 @@ final class PlainSentences extends Group {
             s.due("not in a closed minute", x.stateOf(1), Desks.QUEUED);
             x.pass(1);
             s.due("one at a time", x.answeredAt(1), 1980);
+            HelpDesk y = new HelpDesk();
+            y.addKind(10080, 10080, 480, 0, 0, true);
+            y.pass(700);
+            y.report(0, 1, 1, 1);
+            y.pass(400);
+            y.report(0, 1, 1, 3);
+            for (int day = 0; day < 2; day++) {
+                s.due("its agent keeps it in closed minutes", y.stateOf(0), Desks.IN_WORK);
+                s.due("the other one waits", y.nextTicket(0), 1);
+                s.due("taken once", y.logSize(), 3);
+                s.due("320 open minutes", y.progress(0), 320);
+                y.pass(440);
+            }
+            y.pass(559);
+            s.due("320 and 160 open minutes", y.solvedAt(0), 1440 + 700);
         });
     }
 

@@ -113,6 +113,20 @@ final class SavedSentences extends Group {
         x.setAgents(0, 0);
         x.pass(99);
         s.due("its level clock", x.levelOf(0), 0);
+        HelpDesk y = Desks.open(10080, 10080, 20, 0, 0);
+        y.save(0);
+        y.pass(5);
+        Desks.report(y, 4);
+        y.join(2, 1);
+        y.join(3, 1);
+        y.pass(60);
+        s.due("all four are solved", y.solvedAt(0) + y.solvedAt(1) + y.solvedAt(2) + y.solvedAt(3), 25 + 3 * 45);
+        y.restore(0);
+        for (int t = 0; t < 4; t++) {
+            y.report(0, 1, 1, 1);
+            s.due("answered, solved, root of " + t, y.answeredAt(t) + y.solvedAt(t) + y.rootOf(t), -3);
+            s.due("reported, twins, state of " + t, y.reportedAt(t) + y.twins(t) + y.stateOf(t), 0);
+        }
     }
 
     /** Two states that have as many of all things, but other ones, on the same object and on objects of their own. */

@@ -269,6 +269,14 @@ final class ScriptSentences extends Group {
                 s.due("what was cut off", x.runScript(), HelpDesk.SYNTAX_ERROR);
                 s.due("is not read", x.errorPosition(), 4);
             }
+            String cut = "kind 1 1 1 1 1 always;";
+            for (int length : new int[] {1, 3, 16, 20}) {
+                HelpDesk x = new HelpDesk();
+                Desks.append(x, cut);
+                x.truncateText(length);
+                s.due("letters that were cut off", x.runScript(), HelpDesk.SYNTAX_ERROR);
+                s.due("are not read, " + length, x.errorPosition(), length < 4 ? 0 : 15);
+            }
             HelpDesk y = new HelpDesk();
             Desks.append(y, "pass 123;");
             y.truncateText(6);

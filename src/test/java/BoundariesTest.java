@@ -6,8 +6,8 @@ public final class BoundariesTest {
     public static void main(String[] args) throws IOException {
         Sentences s = new Sentences(Path.of("../shared/DOC.md"));
         Group[] groups = {new PlainSentences(s), new MinuteSentences(s), new HistorySentences(s),
-            new CalendarSentences(s), new ChangeSentences(s), new TicketSentences(s), new QuerySentences(s),
-            new ForecastSentences(s), new ScriptSentences(s), new SavedSentences(s)};
+            new LogSentences(s), new CalendarSentences(s), new ChangeSentences(s), new TicketSentences(s),
+            new QuerySentences(s), new ForecastSentences(s), new ScriptSentences(s), new SavedSentences(s)};
         for (Group group : groups) {
             group.test();
         }

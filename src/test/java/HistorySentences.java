@@ -1,4 +1,4 @@
-/** The sentences on the history, on replays and on the log. */
+/** The sentences on the history and on replays. */
 final class HistorySentences extends Group {
     HistorySentences(Sentences sentences) {
         super(sentences);
@@ -13,7 +13,6 @@ final class HistorySentences extends Group {
         repeating();
         errorsInReplays();
         otherAgents();
-        log();
     }
 
     private void changes() {
@@ -58,6 +57,11 @@ final class HistorySentences extends Group {
             x.setAgents(4, 1);
             x.resume(0);
             s.due("errors are not recorded", x.historyLength(), changes);
+            for (int type = 0; type < 11; type++) {
+                for (int time = 4; time < 16; time++) {
+                    timeOfChange(type, time);
+                }
+            }
         });
         s.of("The history holds at most 200 changes", () -> {
             HelpDesk x = Desks.calm(1);
@@ -80,6 +84,77 @@ final class HistorySentences extends Group {
             s.due("a kind, the history being full", y.addKind(1, 1, 1, 0, 0, true), 1);
             s.due("minutes, the history being full", y.pass(480), 1);
         });
+    }
+
+    /**
+     * The clocks of ticket 0 hang on the time of a change, so with targets that they just reach, or just pass, a replay
+     * tells whether it makes the change in that very minute.
+     */
+    private void timeOfChange(int type, int time) {
+        HelpDesk x = changedAt(type, time, 10080, 10080);
+        int response = x.responseClock(0);
+        int resolve = x.resolveClock(0);
+        String what = "change " + type + " at " + time;
+        s.due(what + ", targets that are reached", changedAt(type, time, response, resolve).breachesWith(3, 1), 0);
+        s.due(what + ", targets that are passed",
+                changedAt(type, time, Math.max(0, response - 1), Math.max(0, resolve - 1)).breachesWith(3, 1),
+                Math.min(1, response) + Math.min(1, resolve));
+    }
+
+    private static HelpDesk changedAt(int type, int time, int response, int resolve) {
+        HelpDesk x = new HelpDesk();
+        x.addKind(response, resolve, 4, 0, 0, type != 0);
+        x.addKind(10080, 10080, 4, 0, 0, true);
+        if (type != 0) {
+            x.setDay(0, 0, 1440);
+        }
+        x.setAgents(type == 1 ? 1 : 0, type == 10 ? 1 : 0);
+        if (type != 2) {
+            x.report(0, 1, 1, 0);
+            for (int i = 0; i < 8; i++) {
+                x.report(1, 1, 1, 1);
+            }
+        }
+        before(x, type);
+        x.pass(time - x.now());
+        change(x, type);
+        x.pass(60);
+        return x;
+    }
+
+    /** Brings ticket 0 into a state that allows the change. */
+    private static void before(HelpDesk x, int type) {
+        if (type == 1) {
+            x.climb(0);
+        } else if (type == 4) {
+            x.pass(3);
+            x.pause(0);
+        } else if (type == 7) {
+            x.pass(3);
+            x.solve(0);
+        } else if (type == 8 || type == 9) {
+            x.pause(1);
+            x.pass(3);
+        }
+        if (type == 9) {
+            x.join(0, 1);
+        }
+    }
+
+    private static void change(HelpDesk x, int type) {
+        switch (type) {
+            case 0: x.setDay(0, 0, 1440); break;
+            case 1: x.setAgents(1, 1); break;
+            case 2: x.report(0, 1, 1, 0); break;
+            case 3: x.pause(0); break;
+            case 4: x.resume(0); break;
+            case 5: x.climb(0); break;
+            case 6: x.solve(0); break;
+            case 7: x.reopen(0); break;
+            case 8: x.join(0, 1); break;
+            case 9: x.part(0); break;
+            default: x.setPriority(0, 3);
+        }
     }
 
     private void beginning() {
@@ -408,72 +483,5 @@ final class HistorySentences extends Group {
             s.due("level 1, the changes of level 0 count", x.breachesWith(1, 0), 2);
             s.due("level 1, its own do not", x.breachesWith(1, 1), 1);
         });
-    }
-
-    private void log() {
-        s.under("LOG");
-        s.of("The log is a list of at most 600 events", () -> {
-            HelpDesk x = Desks.withEvents(599);
-            s.due("599 events", x.logSize(), 599);
-            s.due("a twin parts", x.part(59), 0);
-            s.due("the six hundredth", x.logType(599) * 1000 + x.logTicket(599), 7059);
-            s.due("another parts", x.part(58), 0);
-            s.due("a further event is not written", x.logSize(), 600);
-            s.due("the last one stays", x.logTicket(599), 59);
-            s.due("none behind it", x.logType(600), HelpDesk.OUT_OF_RANGE);
-            s.due("but it happens", x.stateOf(58), Desks.QUEUED);
-            s.due("as all others do", x.solve(0), 58);
-            x.pass(480);
-            s.due("and time passes", x.solvedAt(58), 480);
-            HelpDesk y = Desks.withEvents(598);
-            s.due("sixty solved, room for two", y.solve(0), 60);
-            s.due("full", y.logSize(), 600);
-            s.due("the root's event", y.logTicket(598), 0);
-            s.due("the first twin's event", y.logTicket(599), 1);
-            s.due("the last twin", y.solvedAt(59), 0);
-        });
-        s.nothingIn("An event has a time, a type");
-        s.of("The types, with the detail in parentheses", this::types);
-        s.of("Events are written in the order in which they happen", () -> {
-            HelpDesk x = Desks.calm(4);
-            x.join(0, 3);
-            x.join(1, 3);
-            x.climb(2);
-            x.solve(3);
-            int[] types = {0, 0, 0, 0, 6, 6, 4, 5, 5, 5};
-            int[] tickets = {0, 1, 2, 3, 0, 1, 2, 3, 0, 1};
-            for (int i = 0; i < types.length; i++) {
-                s.due("type " + i, x.logType(i), types[i]);
-                s.due("ticket " + i, x.logTicket(i), tickets[i]);
-            }
-        });
-    }
-
-    private void types() {
-        HelpDesk x = new HelpDesk();
-        x.addKind(100, 100, 480, 0, 0, true);
-        x.addKind(1, 2, 480, 0, 0, true);
-        x.setDay(0, 0, 1440);
-        x.report(1, 1, 1, 1);
-        x.report(0, 1, 1, 1);
-        x.climb(1);
-        x.climb(1);
-        x.setAgents(0, 0);
-        x.pass(3);
-        x.pause(1);
-        x.resume(1);
-        x.join(0, 1);
-        x.part(0);
-        x.solve(0);
-        x.reopen(0);
-        int[][] due = {{0, 0, 0, 1}, {0, 0, 1, 0}, {0, 4, 1, 1}, {0, 4, 1, 2}, {0, 1, 1, 2}, {2, 8, 0, 1},
-            {3, 9, 0, 2}, {3, 2, 1, 0}, {3, 3, 1, 0}, {3, 6, 0, 1}, {3, 7, 0, 1}, {3, 5, 0, 0}, {3, 10, 0, 0}};
-        s.due("events", x.logSize(), due.length);
-        for (int i = 0; i < due.length; i++) {
-            s.due("time of " + i, x.logTime(i), due[i][0]);
-            s.due("type of " + i, x.logType(i), due[i][1]);
-            s.due("ticket of " + i, x.logTicket(i), due[i][2]);
-            s.due("detail of " + i, x.logDetail(i), due[i][3]);
-        }
     }
 }

@@ -2,6 +2,8 @@ import java.util.function.ToIntFunction;
 
 /** The sentences on scripts, and the promises 53 to 58. */
 final class ScriptSentences extends Group {
+    private static final int WRONG_STATE = HelpDesk.WRONG_STATE;
+
     ScriptSentences(Sentences sentences) {
         super(sentences);
     }
@@ -458,6 +460,24 @@ final class ScriptSentences extends Group {
         });
     }
 
+    /** What is told of a run stays the same, whatever else is called before the next one. */
+    private void untilTheNextRun(String text, Call told, int due) {
+        HelpDesk x = Desks.ofEveryState();
+        Desks.run(x, text);
+        Call[] calls = {(d, n) -> d.appendText(0x70617373), (d, n) -> d.truncateText(1), (d, n) -> d.truncateText(2),
+            (d, n) -> Desks.append(d, spaces(399)), (d, n) -> d.appendText(0x20202020), (d, n) -> d.truncateText(0),
+            (d, n) -> d.save(0) ? 1 : 0, (d, n) -> d.restore(0) ? 1 : 0, (d, n) -> d.restore(1) ? 1 : 0,
+            (d, n) -> d.addKind(1, 1, 1, 1, 1, true), (d, n) -> d.report(1, 1, 1, 1), (d, n) -> d.pause(9),
+            (d, n) -> d.setAgents(0, 2), (d, n) -> d.pass(10), (d, n) -> d.pass(0), (d, n) -> d.solve(1),
+            (d, n) -> d.breachesWith(0, 1), (d, n) -> d.forecast(0), (d, n) -> d.resolvePercentile(0)};
+        for (int i = 0; i < calls.length; i++) {
+            calls[i].of(x, 0);
+            s.due("after call " + i + " behind " + text, told.of(x, 0), due);
+        }
+        Desks.run(x, "pass 1;");
+        s.due("until the next run", told.of(x, 0) != due, true);
+    }
+
     private void latest() {
         s.under("Promise 56: errorCode");
         s.of("Returns the error code of the latest runScript(): 0 if", () -> {
@@ -471,6 +491,7 @@ final class ScriptSentences extends Group {
                 x.runScript();
                 s.due("after " + texts[i], x.errorCode(), due[i]);
             }
+            untilTheNextRun("pass 100000;", (d, none) -> d.errorCode(), 2);
         });
         s.under("Promise 57: errorPosition");
         s.of("Returns the error position of the latest runScript()", () -> {
@@ -479,6 +500,7 @@ final class ScriptSentences extends Group {
                 Desks.run(x, text);
                 s.due("after " + text, x.errorPosition(), text.equals("!") ? 0 : text.equals("pass 1") ? 6 : 7);
             }
+            untilTheNextRun("pass 100000;", (d, none) -> d.errorPosition(), 5);
         });
         s.of("NONE if its text had no error, or if there was no such call", () -> {
             HelpDesk x = new HelpDesk();
@@ -505,6 +527,7 @@ final class ScriptSentences extends Group {
             Desks.fillHistory(x);
             Desks.run(x, "pause 0;");
             s.due("full", x.scriptFailure(), HelpDesk.FULL);
+            untilTheNextRun("resume 1;", (d, none) -> d.scriptFailure(), WRONG_STATE);
         });
         s.of("0 if that call executed all statements, had a syntax error, or did not happen", () -> {
             HelpDesk x = new HelpDesk();

@@ -317,6 +317,10 @@ final class ChangeSentences extends Group {
             lastEvent(x, 10, 3, 0);
             s.unchanged(x, "again", d -> d.reopen(3), WRONG_STATE);
             s.unchanged(x, "its twin", d -> d.reopen(5), WRONG_STATE);
+            HelpDesk y = Desks.calm(1);
+            y.solve(0);
+            y.pass(10080);
+            s.due("after a week", y.reopen(0), 1);
         });
         s.of("The tickets that were its twins when it was solved become TWINs of it again", () -> {
             HelpDesk x = Desks.calm(6);
@@ -429,6 +433,14 @@ final class ChangeSentences extends Group {
             s.due("its agent is free", x.busyAgents(0), 0);
             s.due("the root's state", x.stateOf(2), Desks.PAUSED);
             lastEvent(x, 6, 1, 2);
+            HelpDesk y = Desks.calm(1);
+            y.addKind(0, 0, 1, 3, 1, false);
+            y.setAgents(0, 0);
+            y.pass(10000);
+            y.report(1, 99, 999, 3);
+            y.climb(1);
+            s.due("nothing is alike, and days lie between", y.join(1, 0), 1);
+            s.due("the other way round", y.part(1) + y.join(0, 1), 1);
         });
         s.of("Its own twins become twins of the new root, too (without events)", () -> {
             HelpDesk x = Desks.calm(60);

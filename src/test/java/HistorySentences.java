@@ -88,7 +88,8 @@ final class HistorySentences extends Group {
 
     /**
      * The clocks of ticket 0 hang on the time of a change, so with targets that they just reach, or just pass, a replay
-     * tells whether it makes the change in that very minute.
+     * tells whether it makes the change in that very minute. The types are those of the document's list of changes,
+     * from 0, setDay, to 10, setPriority.
      */
     private void timeOfChange(int type, int time) {
         HelpDesk x = changedAt(type, time, 10080, 10080);
